@@ -148,12 +148,12 @@ public final class FilterHouse {
         if (!maps.isKeyed(m) || n != maps.keySize[m]) {
             return NONE;
         }
-        int cell = maps.find(m, tape, 0);
-        if (cell < 0) {
+        int entry = maps.findEntry(m, tape, 0);
+        if (entry < 0) {
             return -2;
         }
         output.size = 0;
-        output.addBytes(maps.room, Maps.cellPlace(m, cell), maps.valueSize[m]);
+        output.addBytes(maps.room, maps.valuePlace(m, entry), maps.valueSize[m]);
         return output.size;
     }
 
@@ -174,7 +174,7 @@ public final class FilterHouse {
         int cell = maps.list[m * 16 + i];
         output.size = 0;
         output.addBytes(maps.keys, Maps.keyPlace(m, cell), maps.keySize[m]);
-        output.addBytes(maps.room, Maps.cellPlace(m, cell), maps.valueSize[m]);
+        output.addBytes(maps.room, maps.valuePlace(m, i), maps.valueSize[m]);
         return output.size;
     }
 
@@ -503,7 +503,7 @@ public final class FilterHouse {
         /** Without sign; by 0: 0. */
         static long divide(long x, long y) {
             if (y < 0) {
-                return below(x, y) ? 0 : 1;
+                return x < 0 && x >= y ? 1 : 0;
             }
             if (y == 0) {
                 return 0;
@@ -513,7 +513,8 @@ public final class FilterHouse {
             }
             // x has its highest bit: half of it is divided, which can be one too few
             long half = ((x >>> 1) / y) << 1;
-            return below(x - half * y, y) ? half : half + 1;
+            long left = x - half * y;
+            return left < 0 || left >= y ? half + 1 : half;
         }
 
         static long extend(long x, int bits) {
@@ -556,7 +557,7 @@ public final class FilterHouse {
                     z = -x;
                     break;
                 case 0x90:
-                    z = off == 1 ? restSigned(wide ? x : (int) x, wide ? y : (int) y) : rest(x, y);
+                    z = off == 1 ? restSigned(wide ? x : (int) x, wide ? y : (int) y) : x - divide(x, y) * y;
                     break;
                 case 0xA0:
                     z = x ^ y;
@@ -1040,13 +1041,10 @@ public final class FilterHouse {
             return passNumber(minus ? 1L << 31 : Form.F);
         }
 
-        /** The right side: a register of the same kind as reg, or a CONST. */
-        private boolean readSide(int reg) {
+        /** The right side, a register of the same kind as reg. */
+        private boolean readRight(int reg) {
             int other = register();
-            if (other == NO_REGISTER) {
-                return readConst();
-            }
-            if ((other & HALF_KIND) != (reg & HALF_KIND)) {
+            if (other == NO_REGISTER || (other & HALF_KIND) != (reg & HALF_KIND)) {
                 return fail();
             }
             word |= 8 | (other & 15) << 12;
@@ -1070,7 +1068,7 @@ public final class FilterHouse {
             }
             at++;
             word = code | (reg < HALF_KIND ? 5 : 6) | (reg & 15) << 8;
-            if (!readSide(reg)) {
+            if (!(register() == NO_REGISTER ? readConst() : readRight(reg))) {
                 return false;
             }
             if (!isName("goto")) {
@@ -1135,7 +1133,7 @@ public final class FilterHouse {
             }
             at++;
             word |= code;
-            return readSide(reg);
+            return register() == NO_REGISTER ? readConst() : readRight(reg);
         }
 
         /** The bits of OP and OFF for s/=, s%=, s>>=. */
@@ -1184,14 +1182,18 @@ public final class FilterHouse {
             boolean full = reg < HALF_KIND;
             if (register() != NO_REGISTER) {
                 word |= 0xB0;
-                return readSide(reg);
+                return readRight(reg);
             }
             if (kinds[at] == NUMBER || kinds[at] == HUGE) {
                 return readNumber(reg, false);
             }
             if (isSign('-')) {
                 at++;
-                return readMinus(reg);
+                if (register() == NO_REGISTER) {
+                    return readNumber(reg, true);
+                }
+                word |= 0x80;
+                return passRegister(reg);
             }
             if (isSign('(')) {
                 at++;
@@ -1237,14 +1239,6 @@ public final class FilterHouse {
             return bits << 8 | (letter == 'l' ? 0xD4 : second == 'e' ? 0xDC : 0xD7);
         }
 
-        private boolean readMinus(int reg) {
-            if (register() != NO_REGISTER) {
-                word |= 0x80;
-                return passRegister(reg);
-            }
-            return readNumber(reg, true);
-        }
-
         /** A number that is taken: of both words before ll, else a CONST. */
         private boolean readNumber(int reg, boolean minus) {
             long value = minus ? -values[at] : values[at];
@@ -1270,13 +1264,7 @@ public final class FilterHouse {
             }
             at++;
             word |= 0xB0 | bits << 16;
-            if (!passSign(')')) {
-                return false;
-            }
-            if (register() == NO_REGISTER) {
-                return fail();
-            }
-            return readSide(reg);
+            return passSign(')') && readRight(reg);
         }
 
         /** A PTR; its register comes into the word at this bit, its OFF and OP's size and mode to theirs. */
@@ -1310,9 +1298,12 @@ public final class FilterHouse {
 
         private int placeMode(boolean signs) {
             int base = 0x60;
-            if (signs && (isName("s8") || isName("s16") || isName("s32"))) {
+            if (kinds[at] != NAME) {
+                return NONE;
+            }
+            if (signs && (sameText(at, "s8") || sameText(at, "s16") || sameText(at, "s32"))) {
                 base = 0x80;
-            } else if (!isName("u8") && !isName("u16") && !isName("u32") && !isName("u64")) {
+            } else if (!sameText(at, "u8") && !sameText(at, "u16") && !sameText(at, "u32") && !sameText(at, "u64")) {
                 return NONE;
             }
             switch (text[begins[at] + 1]) {
@@ -1710,7 +1701,7 @@ public final class FilterHouse {
         private final int[] held = new int[COUNT];
         private boolean anyLater = false;
 
-        static int cellPlace(int m, int cell) {
+        private static int cellPlace(int m, int cell) {
             return VALUES + (m * CELLS + cell) * CELL_BYTES;
         }
 
@@ -1769,23 +1760,23 @@ public final class FilterHouse {
             }
         }
 
-        /** The cell in which the value of this key is, of a ROW or TABLE; NONE: it is not there. */
-        int find(int m, byte[] from, int at) {
+        /** Which entry of a ROW or TABLE has this key; NONE: it is not there. */
+        int findEntry(int m, byte[] from, int at) {
             if (kind[m] == ROW) {
                 int index = (int) Form.number(from, at, 4);
                 return index >= 0 && index < most[m] ? index : NONE;
             }
-            int entry = findEntry(m, from, at);
-            return entry < 0 ? NONE : list[m * 16 + entry];
-        }
-
-        private int findEntry(int m, byte[] from, int at) {
             for (int i = 0; i < filled[m]; i++) {
                 if (sameKey(keyPlace(m, list[m * 16 + i]), from, at, keySize[m])) {
                     return i;
                 }
             }
             return NONE;
+        }
+
+        /** Where the value of an entry is. */
+        int valuePlace(int m, int entry) {
+            return cellPlace(m, kind[m] == ROW ? entry : list[m * 16 + entry]);
         }
 
         private boolean sameKey(int place, byte[] from, int at, int n) {
@@ -1801,30 +1792,31 @@ public final class FilterHouse {
             if (flags < 0 || flags > 2) {
                 return -22;
             }
-            int cell = find(m, from, keyAt);
-            if (kind[m] == ROW && cell < 0) {
+            int entry = findEntry(m, from, keyAt);
+            if (kind[m] == ROW && entry < 0) {
                 return -7;
             }
-            if (cell >= 0 && flags == 1) {
+            if (entry >= 0 && flags == 1) {
                 return -17;
             }
-            if (cell < 0 && flags == 2) {
+            if (entry < 0 && flags == 2) {
                 return -2;
             }
-            if (cell < 0) {
-                if (filled[m] == most[m]) {
+            if (entry < 0) {
+                if (filled[m] >= most[m]) {
                     return -7;
                 }
-                cell = freeCell(m);
+                int cell = freeCell(m);
                 if (cell < 0) {
                     return -12;
                 }
                 System.arraycopy(from, keyAt, keys, keyPlace(m, cell), keySize[m]);
                 state[m * CELLS + cell] = USED;
-                list[m * 16 + filled[m]] = cell;
+                entry = filled[m];
+                list[m * 16 + entry] = cell;
                 filled[m]++;
             }
-            System.arraycopy(valueFrom, valueAt, room, cellPlace(m, cell), valueSize[m]);
+            System.arraycopy(valueFrom, valueAt, room, valuePlace(m, entry), valueSize[m]);
             return 0;
         }
 
@@ -1968,7 +1960,8 @@ public final class FilterHouse {
                 if (way == 0) {
                     goWord();
                 } else {
-                    plain.goOn(this, slots);
+                    plain.turnProgram(slots, slot);
+                    plain.goOn(this);
                 }
             }
             result = regs[0];
@@ -2075,7 +2068,11 @@ public final class FilterHouse {
                     break;
                 case 5:
                 case 6:
-                    goJump(w);
+                    if (op == Form.CALL && Form.src(w) == 0) {
+                        regs[0] = help(Form.imm(w));
+                    } else {
+                        goJump(w);
+                    }
                     break;
                 default:
                     goAlu(w);
@@ -2146,11 +2143,7 @@ public final class FilterHouse {
                     next += Form.imm(w);
                     break;
                 case Form.CALL:
-                    if (Form.src(w) == 1) {
-                        goFunction(next + Form.imm(w));
-                    } else {
-                        regs[0] = help(Form.imm(w));
-                    }
+                    goFunction(next + Form.imm(w));
                     break;
                 case Form.EXIT:
                     goBack();
@@ -2210,8 +2203,8 @@ public final class FilterHouse {
                 return 0;
             }
             if (helper == 1) {
-                int cell = maps.find(m, maps.room, key);
-                return cell < 0 ? 0 : BASE + Maps.cellPlace(m, cell);
+                int entry = maps.findEntry(m, maps.room, key);
+                return entry < 0 ? 0 : BASE + maps.valuePlace(m, entry);
             }
             if (helper == 3) {
                 return maps.take(m, maps.room, key);
@@ -2338,7 +2331,11 @@ public final class FilterHouse {
         private int size;
         private int begun;
 
-        private void turnProgram(Slots slots, int slot) {
+        /** Turns a slot's words, if its code is not that of them. */
+        void turnProgram(Slots slots, int slot) {
+            if (slots.turned[slot]) {
+                return;
+            }
             if (codes[slot] == null) {
                 codes[slot] = new int[Slots.WORDS_MOST * PER_WORD * FIELDS];
             }
@@ -2510,15 +2507,16 @@ public final class FilterHouse {
             } else if (wide) {
                 emit(operation(c, Form.off(w)), d, d, side(w));
             } else {
-                turnHalf(w, c, d);
+                turnHalf(w, side(w));
             }
             if (!wide && c != 0xD0) {
                 emit(CUT, d, d, 0);
             }
         }
 
-        private void turnHalf(long w, int c, int d) {
-            int y = side(w);
+        private void turnHalf(long w, int y) {
+            int c = Form.op(w) & 0xF0;
+            int d = Form.dst(w);
             int what = operation(c, Form.off(w));
             switch (c) {
                 case 0x30:
@@ -2606,11 +2604,8 @@ public final class FilterHouse {
         }
 
         /** The next operation of a run. */
-        void goOn(Runs runs, Slots slots) {
+        void goOn(Runs runs) {
             int slot = runs.slot;
-            if (!slots.turned[slot]) {
-                turnProgram(slots, slot);
-            }
             if (runs.next < 0 || runs.next >= sizes[slot]) {
                 runs.over = true;
                 return;
@@ -2747,8 +2742,10 @@ public final class FilterHouse {
         void setAny() {
             v = 0;
             m = -1;
-            wholeU();
-            wholeS();
+            u1 = 0;
+            u2 = -1;
+            s1 = Long.MIN_VALUE;
+            s2 = Long.MAX_VALUE;
         }
 
         void setWide(int bytes) {
@@ -2781,7 +2778,7 @@ public final class FilterHouse {
         }
 
         /** From the fields of a VALUE. */
-        void take(long[] row, int at) {
+        void fetch(long[] row, int at) {
             v = row[at + State.V];
             m = row[at + State.M];
             u1 = row[at + State.U1];
@@ -2790,7 +2787,7 @@ public final class FilterHouse {
             s2 = row[at + State.S2];
         }
 
-        void put(long[] row, int at) {
+        void store(long[] row, int at) {
             row[at + State.V] = v;
             row[at + State.M] = m;
             row[at + State.U1] = u1;
@@ -2812,8 +2809,8 @@ public final class FilterHouse {
         }
 
         private void rangesByBits() {
-            u1 = greater(u1, v);
-            u2 = lesser(u2, v | m);
+            u1 = u1 + LEAST < v + LEAST ? v : u1;
+            u2 = u2 + LEAST < (v | m) + LEAST ? u2 : v | m;
             s1 = Math.max(s1, v | m & LEAST);
             s2 = Math.min(s2, v | m & ~LEAST);
         }
@@ -2860,29 +2857,26 @@ public final class FilterHouse {
             tidy();
         }
 
-        /** What an ALU instruction (but 80, D4, DC, D7) makes of x and y; of a W one both are CUT. */
-        void operate(int op, int off, Num x, Num y) {
+        /** Whether an ALU instruction makes a number of x and y that is told without their parts, and then makes it. */
+        boolean makeTold(int op, int off, Num x, Num y) {
             int code = op & 0xF0;
-            boolean wide = (op & 7) == 7;
-            boolean signs = off == 1 || code == 0xC0 && !wide;
-            if (code == 0xB0 && off == 0) {
-                setSame(y);
-                return;
-            }
-            boolean both = x.m == 0 && y.m == 0;
-            if (both && (signs || code == 0x20 || code == 0x30 || code == 0x90)) {
+            boolean signs = off == 1 || code == 0xC0 && (op & 7) == 4;
+            boolean extended = code == 0xB0;
+            boolean both = (x.m == 0 || extended) && y.m == 0;
+            if (both && (signs || extended || code == 0x20 || code == 0x30 || code == 0x90)) {
                 setNumber(Form.operate(op, off, x.v, y.v));
-            } else if (signs) {
-                setAny();
-            } else {
-                combine(code, off, wide ? 63 : 31, x, y);
+                return true;
             }
-            tidy();
+            if (signs) {
+                setAny();
+            }
+            return signs;
         }
 
-        private void combine(int code, int off, int shifts, Num x, Num y) {
-            int n = (int) y.v & shifts;
-            switch (code) {
+        /** What the other ALU instructions (but 80, D4, DC, D7) make of x and y; of W ones both are CUT. */
+        void combine(int op, int off, Num x, Num y) {
+            int n = (int) y.v & ((op & 7) == 7 ? 63 : 31);
+            switch (op & 0xF0) {
                 case 0x00:
                     add(x, y);
                     break;
@@ -2917,7 +2911,7 @@ public final class FilterHouse {
                     wholeS();
                     break;
                 case 0xB0:
-                    extend(y, off);
+                    setSigned(off);
                     break;
                 default:
                     shiftSigned(x, y.m == 0, n);
@@ -2925,7 +2919,7 @@ public final class FilterHouse {
             }
         }
 
-        private void add(Num x, Num y) {
+        void add(Num x, Num y) {
             long a = x.v + y.v;
             m = (x.m + y.m + a ^ a) | x.m | y.m;
             v = a & ~m;
@@ -3040,15 +3034,7 @@ public final class FilterHouse {
             s2 = constant ? x.s2 >> n : Math.max(x.s2, -1);
         }
 
-        private void extend(Num y, int bits) {
-            if (y.m == 0) {
-                setNumber(Form.extend(y.v, bits));
-            } else {
-                setSigned(bits);
-            }
-        }
-
-        /** Any number of so many bits, sign extended. */
+        /** Any number of so many bits (8, 16, 32), sign extended. */
         void setSigned(int bits) {
             setAny();
             s1 = -1L << bits - 1;
@@ -3177,9 +3163,9 @@ public final class FilterHouse {
         }
 
         void setNumber(int place, Num x) {
-            unset(place);
+            Arrays.fill(row, place, place + FIELDS, 0);
             row[place] = NUMBER;
-            x.put(row, place);
+            x.store(row, place);
         }
 
         void enterFrame(int behind) {
@@ -3469,6 +3455,12 @@ public final class FilterHouse {
                     return (op & 0xE0) == 0x60 ? goPut() : goExchange();
                 case 5:
                 case 6:
+                    if (op == Form.EXIT) {
+                        return goExit();
+                    }
+                    if (op == Form.CALL) {
+                        return Form.src(word) == 1 ? goFunction() : goHelper(Form.imm(word));
+                    }
                     return goJump();
                 default:
                     return goAlu();
@@ -3539,9 +3531,9 @@ public final class FilterHouse {
 
         /** The sides of an operation or jump of NUMBERs come to x and y. */
         private void takeSides() {
-            x.take(here.row, left());
+            x.fetch(here.row, left());
             if (hasRight()) {
-                y.take(here.row, right());
+                y.fetch(here.row, right());
             } else {
                 y.setNumber(Form.imm(word));
             }
@@ -3558,13 +3550,24 @@ public final class FilterHouse {
                 x.setNumber(0);
             }
             int as = code == 0x80 ? op & 15 | 0x10 : op;
-            if (wide) {
-                z.operate(as, Form.off(word), x, y);
-            } else {
+            int off = Form.off(word);
+            if (!wide) {
                 cutX.setCut(x);
                 cutY.setCut(y);
-                x.operate(as, Form.off(word), cutX, cutY);
-                z.setCut(x);
+            }
+            Num a = wide ? x : cutX;
+            Num b = wide ? y : cutY;
+            if (code == 0xB0 && off == 0) {
+                z.setSame(b);
+            } else {
+                if (!z.makeTold(as, off, a, b)) {
+                    z.combine(as, off, a, b);
+                }
+                z.tidy();
+            }
+            if (!wide) {
+                x.setCut(z);
+                z.setSame(x);
             }
         }
 
@@ -3583,14 +3586,15 @@ public final class FilterHouse {
                 return KIND;
             }
             int from = turned ? right() : left();
-            z.take(here.row, from);
-            cutX.operate(0x0F, 0, z, by);
+            z.fetch(here.row, from);
+            cutX.add(z, by);
+            cutX.tidy();
             if (Form.below(PART_MOST, cutX.u2)) {
                 return RANGE;
             }
             int d = left();
             here.move(from, d);
-            cutX.put(here.row, d);
+            cutX.store(here.row, d);
             if (kind == State.PACKET) {
                 here.row[d + State.REACH] = 0;
                 here.row[d + State.TAG] = newTag();
@@ -3784,24 +3788,6 @@ public final class FilterHouse {
             return GOOD;
         }
 
-        private int goJump() {
-            switch (op) {
-                case Form.GO:
-                    next += Form.off(word);
-                    return GOOD;
-                case Form.GO_FAR:
-                    next += Form.imm(word);
-                    return GOOD;
-                case Form.CALL:
-                    return Form.src(word) == 1 ? goFunction() : goHelper(Form.imm(word));
-                case Form.EXIT:
-                    return goExit();
-                default:
-                    target = next + Form.off(word);
-                    return goCondition();
-            }
-        }
-
         private int goFunction() {
             if (here.frames == FRAMES_MOST) {
                 return DEEP;
@@ -3827,8 +3813,13 @@ public final class FilterHouse {
             return here.holds > 0 ? HELD : GOOD;
         }
 
-        private int goCondition() {
+        private int goJump() {
             int code = op & 0xF0;
+            if (code == 0) {
+                next += op == Form.GO ? Form.off(word) : Form.imm(word);
+                return GOOD;
+            }
+            target = next + Form.off(word);
             boolean wide = (op & 7) == 5;
             int leftKind = here.kind(left());
             int rightKind = hasRight() ? here.kind(right()) : State.NUMBER;
@@ -3844,7 +3835,9 @@ public final class FilterHouse {
                 return NULL;
             }
             if (leftKind == State.NUMBER && rightKind == State.NUMBER) {
-                goNumbers(code, wide);
+                if (!goNumbers(code, wide)) {
+                    goNarrowed(code);
+                }
                 return GOOD;
             }
             boolean order = code == 0x20 || code == 0x30 || code == 0xA0 || code == 0xB0;
@@ -3888,9 +3881,14 @@ public final class FilterHouse {
             low.reachAtLeast(tag, below ? off + 1 : off);
         }
 
-        private void goNumbers(int code, boolean wide) {
+        private static boolean isSigned(int code) {
+            return code == 0x60 || code == 0x70 || code == 0xC0 || code == 0xD0;
+        }
+
+        /** A jump of two NUMBERs; false: it is not decided, and its sides (x and y) are NARROWED on each way. */
+        private boolean goNumbers(int code, boolean wide) {
             takeSides();
-            boolean signs = code == 0x60 || code == 0x70 || code == 0xC0 || code == 0xD0;
+            boolean signs = isSigned(code);
             cutX.setSame(x);
             cutY.setSame(y);
             if (!wide) {
@@ -3900,18 +3898,17 @@ public final class FilterHouse {
             int verdict = wide || !signs ? decide(code, cutX, cutY) : decideConstants();
             if (verdict != NONE) {
                 next = verdict == 1 ? target : next;
-                return;
+                return true;
             }
-            boolean fixed = !hasRight();
-            boolean same = !fixed && Form.src(word) == Form.dst(word);
-            if (fixed) {
+            if (!hasRight()) {
                 y.setSame(cutY);
             }
+            boolean same = hasRight() && Form.src(word) == Form.dst(word);
             if (same || !wide && (signs || x.u2 >>> 32 != 0 || y.u2 >>> 32 != 0)) {
                 part();
-            } else {
-                narrowBoth(code, signs, fixed);
+                return true;
             }
+            return false;
         }
 
         /** 1: the condition is so, 0: it is not, NONE: not DECIDED. */
@@ -3972,7 +3969,7 @@ public final class FilterHouse {
             return Form.holds(op, cutX.v, cutY.v) ? 1 : 0;
         }
 
-        private void narrowBoth(int code, boolean signs, boolean fixed) {
+        private void narrowBoth(int code, boolean signs) {
             yesX.setSame(x);
             yesY.setSame(y);
             noX.setSame(x);
@@ -4009,7 +4006,6 @@ public final class FilterHouse {
                     order(noX, noY, signs, 1);
                     break;
             }
-            goNarrowed(fixed);
         }
 
         /** Both have what both know. */
@@ -4068,7 +4064,9 @@ public final class FilterHouse {
             }
         }
 
-        private void goNarrowed(boolean fixed) {
+        private void goNarrowed(int code) {
+            narrowBoth(code, isSigned(code));
+            boolean fixed = !hasRight();
             boolean yes = yesX.tidy();
             boolean no = noX.tidy();
             if (!fixed) {
