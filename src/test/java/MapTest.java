@@ -7,6 +7,7 @@ public final class MapTest {
         order();
         programs();
         records();
+        apart();
         wrongMaps();
         House.end();
     }
@@ -193,6 +194,41 @@ public final class MapTest {
         House.due("the OUT stays", x.outs(), 3);
         House.due("size", x.size(3), 0);
         House.due("no map", x.next(4) + x.next(-1) + x.next(8), -3);
+    }
+
+    /** Values of 64 bytes in all cells of two ROWs and two TABLEs are not in one another's way. */
+    private static void apart() {
+        House house = new House();
+        for (int m = 0; m < 8; m++) {
+            House.due("map " + m, house.house.map(m, m % 2, 4, 64, 16), true);
+        }
+        house.tape(1, 2, 3).house.packet();
+        for (int m = 0; m < 8; m++) {
+            for (int i = 0; i < 16; i++) {
+                House.due("put", put(house, m, 0, mixed(i, m)), 0);
+            }
+        }
+        for (int m = 0; m < 8; m++) {
+            for (int i = 0; i < 16; i++) {
+                House.due("get", get(house, m, i, 0, 0, 0), 64);
+                int[] all = mixed(i, m);
+                boolean same = true;
+                for (int k = 0; k < 64; k++) {
+                    same &= house.house.out(k) == all[k + 4];
+                }
+                House.due("value " + i + " of map " + m, same, true);
+            }
+        }
+        House.due("packet", house.house.packetByte(0) + house.house.packetByte(2), 4);
+    }
+
+    private static int[] mixed(int i, int m) {
+        int[] all = new int[68];
+        all[0] = i;
+        for (int k = 0; k < 64; k++) {
+            all[k + 4] = i * 31 + m * 77 + k * 3 & 255;
+        }
+        return all;
     }
 
     private static void wrongMaps() {

@@ -1,9 +1,10 @@
 /**
- * Programs that were made by dice, and what another writing of the document's parts 5 and 6 (in another
- * language, by the same hand) says of them: the fault, told(0 .. 5), all of known() summed up, the words.
+ * Programs, and what another writing of the document's parts 5 and 6 (in another language, by the same hand) says
+ * of them: the fault, told(0 .. 5), all of known() summed up.
  */
 public final class ModelTest {
-    private static final String[] CASES = {
+    /** Made by dice: what is said of them, then the words. */
+    private static final String[] DICE = {
         "5 25 24 3 0 1 1 -503700769345796607 "
             + "00000020000007180000ffff000000000000001f00080715fffffffdff800a62000000000000a7bfffffff8000000707000003e8000008b4"
             + "00000000ffe88a7300000000000017bf0000000300001118000000000000000000000018000002b700000000000003b70000008300000085"
@@ -563,37 +564,703 @@ public final class ModelTest {
             + "000000000004866100000000000053bf0000002700000307000000000001633d0000000000108161ffffffbe000000b70000000000000095",
     };
 
+    /** Made for something (what covers what, jumps decided and narrowed, operations): what is said, then the text. */
+    private static final String[] TEXTS = {
+        "0 -1 27 4 18 1 1 -441022385458237318",
+        "r8 = r1\nr9 = *(u32 *)(r1 + 8)\nif r9 == 9 goto S\n*(u64 *)(r10 - 8) = 1\nr2 = r10\nr2 += -8\nr1 = m"
+            + "ap 0\ncall 1\nr6 = r0\nr7 = r0\nJ: r0 = 0\nexit\nS: *(u64 *)(r10 - 8) = 1\nr2 = r10\nr2 += -8\nr1 = "
+            + "map 0\ncall 1\nr6 = r0\n*(u64 *)(r10 - 8) = 1\nr2 = r10\nr2 += -8\nr1 = map 0\ncall 1\nr7 = r0\ngoto"
+            + " J",
+        "0 -1 27 4 17 1 1 7782191508000809532",
+        "r8 = r1\nr9 = *(u32 *)(r1 + 8)\nif r9 == 9 goto S\n*(u64 *)(r10 - 8) = 1\nr2 = r10\nr2 += -8\nr1 = m"
+            + "ap 0\ncall 1\nr6 = r0\n*(u64 *)(r10 - 8) = 1\nr2 = r10\nr2 += -8\nr1 = map 0\ncall 1\nr7 = r0\nJ: r0"
+            + " = 0\nexit\nS: *(u64 *)(r10 - 8) = 1\nr2 = r10\nr2 += -8\nr1 = map 0\ncall 1\nr6 = r0\nr7 = r0\ngoto"
+            + " J",
+        "0 -1 20 3 13 1 1 -2552327731679648983",
+        "r8 = r1\nr9 = *(u32 *)(r1 + 8)\nif r9 == 9 goto S\n*(u64 *)(r10 - 8) = 1\nr2 = r10\nr2 += -8\nr1 = m"
+            + "ap 0\ncall 1\nr6 = r0\nr7 = r0\nJ: r0 = 0\nexit\nS: *(u64 *)(r10 - 8) = 1\nr2 = r10\nr2 += -8\nr1 = "
+            + "map 0\ncall 1\nr6 = r0\nr7 = r0\ngoto J",
+        "0 -1 20 3 13 1 1 -2552327731679648983",
+        "r8 = r1\nr9 = *(u32 *)(r1 + 8)\nif r9 == 9 goto S\n*(u64 *)(r10 - 8) = 1\nr2 = r10\nr2 += -8\nr1 = m"
+            + "ap 0\ncall 1\nr6 = r0\nr7 = r0\nJ: r0 = 0\nexit\nS: *(u64 *)(r10 - 8) = 1\nr2 = r10\nr2 += -8\nr1 = "
+            + "map 0\ncall 1\nr6 = r0\nr7 = r0\ngoto J",
+        "0 -1 30 3 18 1 1 -4769890994837668363",
+        "r8 = r1\nr9 = *(u32 *)(r1 + 8)\nif r9 == 9 goto S\n*(u64 *)(r10 - 8) = 1\nr2 = r10\nr2 += -8\nr1 = m"
+            + "ap 0\ncall 1\nr6 = r0\n*(u64 *)(r10 - 8) = 1\nr2 = r10\nr2 += -8\nr1 = map 0\ncall 1\nr7 = r0\nJ: r0"
+            + " = 0\nexit\nS: *(u64 *)(r10 - 8) = 1\nr2 = r10\nr2 += -8\nr1 = map 0\ncall 1\nr6 = r0\n*(u64 *)(r10 "
+            + "- 8) = 1\nr2 = r10\nr2 += -8\nr1 = map 0\ncall 1\nr7 = r0\ngoto J",
+        "0 -1 31 3 19 1 1 -7207762156740750775",
+        "r8 = r1\nr9 = *(u32 *)(r1 + 8)\nif r9 == 9 goto S\n*(u64 *)(r10 - 8) = 1\nr2 = r10\nr2 += -8\nr1 = m"
+            + "ap 0\ncall 1\nr6 = r0\n*(u64 *)(r10 - 8) = 1\nr2 = r10\nr2 += -8\nr1 = map 0\ncall 1\nr7 = r0\nJ: r0"
+            + " = 0\nexit\nS: *(u64 *)(r10 - 8) = 1\nr2 = r10\nr2 += -8\nr1 = map 0\ncall 1\nr7 = r0\n*(u64 *)(r10 "
+            + "- 8) = 1\nr2 = r10\nr2 += -8\nr1 = map 0\ncall 1\nr6 = r0\nr0 = r7\ngoto J",
+        "0 -1 31 3 18 1 1 -6479902463616606429",
+        "r8 = r1\nr9 = *(u32 *)(r1 + 8)\nif r9 == 9 goto S\n*(u64 *)(r10 - 8) = 1\nr2 = r10\nr2 += -8\nr1 = m"
+            + "ap 0\ncall 1\nr7 = r0\n*(u64 *)(r10 - 8) = 1\nr2 = r10\nr2 += -8\nr1 = map 0\ncall 1\nr6 = r0\nr0 = "
+            + "r7\nJ: r0 = 0\nexit\nS: *(u64 *)(r10 - 8) = 1\nr2 = r10\nr2 += -8\nr1 = map 0\ncall 1\nr6 = r0\n*(u6"
+            + "4 *)(r10 - 8) = 1\nr2 = r10\nr2 += -8\nr1 = map 0\ncall 1\nr7 = r0\ngoto J",
+        "0 -1 32 4 18 1 1 779236292659374401",
+        "r8 = r1\nr9 = *(u32 *)(r1 + 8)\nif r9 == 9 goto S\n*(u64 *)(r10 - 8) = 1\nr2 = r10\nr2 += -8\nr1 = m"
+            + "ap 0\ncall 1\nr6 = r0\n*(u64 *)(r10 - 8) = 1\nr2 = r10\nr2 += -8\nr1 = map 0\ncall 1\nr7 = r0\nJ: r0"
+            + " = 0\nexit\nS: *(u64 *)(r10 - 8) = 1\nr2 = r10\nr2 += -8\nr1 = map 0\ncall 1\nr7 = r0\n*(u64 *)(r10 "
+            + "- 8) = 1\nr2 = r10\nr2 += -8\nr1 = map 0\ncall 1\nr6 = r0\ngoto J",
+        "0 -1 32 4 18 1 1 -3993875470155912895",
+        "r8 = r1\nr9 = *(u32 *)(r1 + 8)\nif r9 == 9 goto S\n*(u64 *)(r10 - 8) = 1\nr2 = r10\nr2 += -8\nr1 = m"
+            + "ap 0\ncall 1\nr7 = r0\n*(u64 *)(r10 - 8) = 1\nr2 = r10\nr2 += -8\nr1 = map 0\ncall 1\nr6 = r0\nJ: r0"
+            + " = 0\nexit\nS: *(u64 *)(r10 - 8) = 1\nr2 = r10\nr2 += -8\nr1 = map 0\ncall 1\nr6 = r0\n*(u64 *)(r10 "
+            + "- 8) = 1\nr2 = r10\nr2 += -8\nr1 = map 0\ncall 1\nr7 = r0\ngoto J",
+        "0 -1 20 3 13 1 1 -9136562666382736471",
+        "r8 = r1\nr9 = *(u32 *)(r1 + 8)\nif r9 == 9 goto S\n*(u64 *)(r10 - 8) = 1\nr2 = r10\nr2 += -8\nr1 = m"
+            + "ap 0\ncall 1\nr6 = r0\nr7 = r0\nJ: r0 = 0\nexit\nS: *(u64 *)(r10 - 8) = 1\nr2 = r10\nr2 += -8\nr1 = "
+            + "map 0\ncall 1\nr7 = r0\nr6 = r0\ngoto J",
+        "0 -1 20 3 13 1 1 -7817927932719742039",
+        "r8 = r1\nr9 = *(u32 *)(r1 + 8)\nif r9 == 9 goto S\n*(u64 *)(r10 - 8) = 1\nr2 = r10\nr2 += -8\nr1 = m"
+            + "ap 0\ncall 1\nr7 = r0\nr6 = r0\nJ: r0 = 0\nexit\nS: *(u64 *)(r10 - 8) = 1\nr2 = r10\nr2 += -8\nr1 = "
+            + "map 0\ncall 1\nr6 = r0\nr7 = r0\ngoto J",
+        "0 -1 22 4 13 1 1 -4635032412965566139",
+        "r8 = r1\nr9 = *(u32 *)(r1 + 8)\nif r9 == 9 goto S\n*(u64 *)(r10 - 8) = 1\nr2 = r10\nr2 += -8\nr1 = m"
+            + "ap 0\ncall 1\nr6 = r0\nr7 = r0\nJ: r0 = 0\nexit\nS: *(u64 *)(r10 - 8) = 1\nr2 = r10\nr2 += -8\nr1 = "
+            + "map 4\ncall 1\nr6 = r0\nr7 = r0\ngoto J",
+        "0 -1 22 4 13 1 1 -5032582181607325595",
+        "r8 = r1\nr9 = *(u32 *)(r1 + 8)\nif r9 == 9 goto S\n*(u64 *)(r10 - 8) = 1\nr2 = r10\nr2 += -8\nr1 = m"
+            + "ap 4\ncall 1\nr6 = r0\nr7 = r0\nJ: r0 = 0\nexit\nS: *(u64 *)(r10 - 8) = 1\nr2 = r10\nr2 += -8\nr1 = "
+            + "map 0\ncall 1\nr6 = r0\nr7 = r0\ngoto J",
+        "0 -1 40 6 25 3 1 -6317770760982995132",
+        "r8 = r1\nr9 = *(u32 *)(r1 + 8)\nif r9 == 9 goto S\nr1 = map 3\nr2 = 8\nr3 = 0\ncall 131\nr6 = r0\nr1"
+            + " = map 3\nr2 = 8\nr3 = 0\ncall 131\nr7 = r0\nr0 = 0\nJ: if r6 == 0 goto A\nr1 = r6\nr2 = 0\ncall 133"
+            + "\nA: if r7 == 0 goto B\nr1 = r7\nr2 = 0\ncall 133\nB: r0 = 0\nexit\nS: r1 = map 3\nr2 = 8\nr3 = 0\nc"
+            + "all 131\nr7 = r0\nr1 = map 3\nr2 = 8\nr3 = 0\ncall 131\nr6 = r0\nr0 = 0\ngoto J",
+        "0 -1 40 6 25 3 1 944437557007097668",
+        "r8 = r1\nr9 = *(u32 *)(r1 + 8)\nif r9 == 9 goto S\nr1 = map 3\nr2 = 8\nr3 = 0\ncall 131\nr7 = r0\nr1"
+            + " = map 3\nr2 = 8\nr3 = 0\ncall 131\nr6 = r0\nr0 = 0\nJ: if r6 == 0 goto A\nr1 = r6\nr2 = 0\ncall 133"
+            + "\nA: if r7 == 0 goto B\nr1 = r7\nr2 = 0\ncall 133\nB: r0 = 0\nexit\nS: r1 = map 3\nr2 = 8\nr3 = 0\nc"
+            + "all 131\nr6 = r0\nr1 = map 3\nr2 = 8\nr3 = 0\ncall 131\nr7 = r0\nr0 = 0\ngoto J",
+        "0 -1 36 5 25 3 1 -1932751289406050516",
+        "r8 = r1\nr9 = *(u32 *)(r1 + 8)\nif r9 == 9 goto S\nr1 = map 3\nr2 = 8\nr3 = 0\ncall 131\nr6 = r0\nr1"
+            + " = map 3\nr2 = 8\nr3 = 0\ncall 131\nr7 = r0\nr0 = 0\nJ: if r6 == 0 goto A\nr1 = r6\nr2 = 0\ncall 133"
+            + "\nA: if r7 == 0 goto B\nr1 = r7\nr2 = 0\ncall 133\nB: r0 = 0\nexit\nS: r1 = map 3\nr2 = 8\nr3 = 0\nc"
+            + "all 131\nr6 = r0\nr1 = map 3\nr2 = 8\nr3 = 0\ncall 131\nr7 = r0\nr0 = 0\ngoto J",
+        "3 20 37 7 0 3 1 -3455961223617300961",
+        "r8 = r1\nr9 = *(u32 *)(r1 + 8)\nif r9 == 9 goto S\nr1 = map 3\nr2 = 8\nr3 = 0\ncall 131\nr6 = r0\nr1"
+            + " = map 3\nr2 = 8\nr3 = 0\ncall 131\nr7 = r0\nr0 = 0\nJ: if r6 == 0 goto A\nr1 = r6\nr2 = 0\ncall 133"
+            + "\nA: if r7 == 0 goto B\nr1 = r7\nr2 = 0\ncall 133\nB: r0 = 0\nexit\nS: r1 = map 3\nr2 = 8\nr3 = 0\nc"
+            + "all 131\nr6 = r0\nr7 = r6\nr0 = 0\ngoto J",
+        "3 15 15 3 0 2 1 -7353255446307473421",
+        "r8 = r1\nr9 = *(u32 *)(r1 + 8)\nif r9 == 9 goto S\nr1 = map 3\nr2 = 8\nr3 = 0\ncall 131\nr6 = r0\nr7"
+            + " = r6\nr0 = 0\nJ: if r6 == 0 goto A\nr1 = r6\nr2 = 0\ncall 133\nA: if r7 == 0 goto B\nr1 = r7\nr2 = "
+            + "0\ncall 133\nB: r0 = 0\nexit\nS: r1 = map 3\nr2 = 8\nr3 = 0\ncall 131\nr6 = r0\nr1 = map 3\nr2 = 8\n"
+            + "r3 = 0\ncall 131\nr7 = r0\nr0 = 0\ngoto J",
+        "0 -1 44 7 25 3 1 1388309262467767488",
+        "r8 = r1\nr9 = *(u32 *)(r1 + 8)\nif r9 == 9 goto S\nr1 = map 3\nr2 = 8\nr3 = 0\ncall 131\nr6 = r0\nr1"
+            + " = map 3\nr2 = 8\nr3 = 0\ncall 131\nr7 = r0\nr0 = 0\nJ: if r6 == 0 goto A\nr1 = r6\nr2 = 0\ncall 133"
+            + "\nA: if r7 == 0 goto B\nr1 = r7\nr2 = 0\ncall 133\nB: r0 = 0\nexit\nS: r1 = map 3\nr2 = 9\nr3 = 0\nc"
+            + "all 131\nr6 = r0\nr1 = map 3\nr2 = 9\nr3 = 0\ncall 131\nr7 = r0\nr0 = 0\ngoto J",
+        "0 -1 44 7 25 3 1 -8491398950558924206",
+        "r8 = r1\nr9 = *(u32 *)(r1 + 8)\nif r9 == 9 goto S\nr1 = map 3\nr2 = 9\nr3 = 0\ncall 131\nr6 = r0\nr1"
+            + " = map 3\nr2 = 9\nr3 = 0\ncall 131\nr7 = r0\nr0 = 0\nJ: if r6 == 0 goto A\nr1 = r6\nr2 = 0\ncall 133"
+            + "\nA: if r7 == 0 goto B\nr1 = r7\nr2 = 0\ncall 133\nB: r0 = 0\nexit\nS: r1 = map 3\nr2 = 8\nr3 = 0\nc"
+            + "all 131\nr6 = r0\nr1 = map 3\nr2 = 8\nr3 = 0\ncall 131\nr7 = r0\nr0 = 0\ngoto J",
+        "10 6 16 4 0 1 1 -6123959206459084811",
+        "r8 = r1\nr9 = *(u32 *)(r1 + 8)\nif r9 == 9 goto S\ncall 5\nr0 = 0\nJ: r0 = 0\nexit\nS: r1 = map 3\nr"
+            + "2 = 8\nr3 = 0\ncall 131\nr6 = r0\nr0 = 0\ngoto J",
+        "10 7 17 4 0 1 1 1482327293669368257",
+        "r8 = r1\nr9 = *(u32 *)(r1 + 8)\nif r9 == 9 goto S\nr6 = 0\ncall 5\nr0 = 0\nJ: r0 = 0\nexit\nS: r6 = "
+            + "0\nr1 = map 3\nr2 = 8\nr3 = 0\ncall 131\nr0 = 0\ngoto J",
+        "0 -1 14 4 8 1 2 5966082606874106031",
+        "r9 = *(u32 *)(r1 + 8)\nif r9 == 9 goto S\ncall f\nr0 = 1\nexit\nS: call f\nr0 = 2\nexit\nf: r0 = 0\n"
+            + "goto +0\nexit",
+        "0 -1 20 7 20 0 2 -7047164359646168164",
+        "r6 = 0\nL: call f\nr6 += 1\nif r6 < 3 goto L\nexit\nf: r0 = 5\ngoto +0\nexit",
+        "0 -1 14 3 14 0 2 490041069195331204",
+        "r6 = *(u32 *)(r1 + 8)\nr1 = 1\ncall f\nr1 = 1\ncall f\nexit\nf: r0 = 0\nif r1 == 1 goto +1\nr0 = 1\n"
+            + "r0 += 1\nexit",
+        "13 6 14 1 0 0 4 7742130456386402172",
+        "r1 = 3\ncall f\nexit\nf: r0 = 0\nif r1 == 0 goto E\nr1 -= 1\ncall f\nE: exit",
+        "13 6 14 1 0 0 4 -8119372291912116474",
+        "r1 = 5\ncall f\nexit\nf: r0 = 0\nif r1 == 0 goto E\nr1 -= 1\ncall f\nE: exit",
+        "0 -1 24 6 12 2 1 548177875277129647",
+        "r8 = r1\nr9 = *(u32 *)(r1 + 8)\nif r9 == 9 goto S\nr2 = *(u32 *)(r8 + 0)\nr3 = *(u32 *)(r8 + 4)\nr4 "
+            + "= r2\nr4 += 8\nif r4 > r3 goto X\nr4 = 0\nJ: r0 = 0\nexit\nX: r0 = 1\nexit\nS: r2 = *(u32 *)(r8 + 0)"
+            + "\nr3 = *(u32 *)(r8 + 4)\nr4 = r2\nr4 += 4\nif r4 > r3 goto X\nr4 = 0\ngoto J",
+        "0 -1 22 5 12 2 1 5386297632859182703",
+        "r8 = r1\nr9 = *(u32 *)(r1 + 8)\nif r9 == 9 goto S\nr2 = *(u32 *)(r8 + 0)\nr3 = *(u32 *)(r8 + 4)\nr4 "
+            + "= r2\nr4 += 4\nif r4 > r3 goto X\nr4 = 0\nJ: r0 = 0\nexit\nX: r0 = 1\nexit\nS: r2 = *(u32 *)(r8 + 0)"
+            + "\nr3 = *(u32 *)(r8 + 4)\nr4 = r2\nr4 += 8\nif r4 > r3 goto X\nr4 = 0\ngoto J",
+        "0 -1 20 4 12 2 1 -2699573824853394169",
+        "r8 = r1\nr9 = *(u32 *)(r1 + 8)\nif r9 == 9 goto S\nr2 = *(u32 *)(r8 + 0)\nr3 = *(u32 *)(r8 + 4)\nr4 "
+            + "= r2\nr4 += 4\nif r4 > r3 goto X\nr4 = 0\nJ: r0 = 0\nexit\nX: r0 = 1\nexit\nS: r2 = *(u32 *)(r8 + 0)"
+            + "\nr3 = *(u32 *)(r8 + 4)\nr4 = r2\nr4 += 4\nif r4 > r3 goto X\nr4 = 0\ngoto J",
+        "0 -1 14 4 9 1 1 8672846654689726204",
+        "r8 = r1\nr9 = *(u32 *)(r1 + 8)\nif r9 == 9 goto S\nr2 = *(u32 *)(r8 + 0)\nr3 = *(u32 *)(r8 + 4)\nr2 "
+            + "+= 3\nJ: r0 = 0\nexit\nS: r2 = *(u32 *)(r8 + 0)\nr3 = *(u32 *)(r8 + 4)\nr2 += 4\ngoto J",
+        "0 -1 14 4 9 1 1 3080100380236149369",
+        "r8 = r1\nr9 = *(u32 *)(r1 + 8)\nif r9 == 9 goto S\nr2 = *(u32 *)(r8 + 0)\nr3 = *(u32 *)(r8 + 4)\nr2 "
+            + "+= 4\nJ: r0 = 0\nexit\nS: r2 = *(u32 *)(r8 + 0)\nr3 = *(u32 *)(r8 + 4)\nr2 += 3\ngoto J",
+        "0 -1 20 4 12 1 1 -8306693283922858730",
+        "r8 = r1\nr9 = *(u32 *)(r1 + 8)\nif r9 == 9 goto S\nr2 = *(u32 *)(r8 + 0)\nr3 = *(u32 *)(r8 + 4)\nr4 "
+            + "= r9\nr4 &= 7\nr2 += r4\nr4 = 0\nJ: r0 = 0\nexit\nS: r2 = *(u32 *)(r8 + 0)\nr3 = *(u32 *)(r8 + 4)\nr"
+            + "4 = r9\nr4 &= 15\nr2 += r4\nr4 = 0\ngoto J",
+        "0 -1 20 4 12 1 1 7142727020348853150",
+        "r8 = r1\nr9 = *(u32 *)(r1 + 8)\nif r9 == 9 goto S\nr2 = *(u32 *)(r8 + 0)\nr3 = *(u32 *)(r8 + 4)\nr4 "
+            + "= r9\nr4 &= 15\nr2 += r4\nr4 = 0\nJ: r0 = 0\nexit\nS: r2 = *(u32 *)(r8 + 0)\nr3 = *(u32 *)(r8 + 4)\n"
+            + "r4 = r9\nr4 &= 7\nr2 += r4\nr4 = 0\ngoto J",
+        "0 -1 23 4 15 1 1 -2459442167405679851",
+        "r8 = r1\nr9 = *(u32 *)(r1 + 8)\nif r9 == 9 goto S\nr2 = *(u32 *)(r8 + 0)\nr3 = *(u32 *)(r8 + 4)\nr4 "
+            + "= r9\nr4 &= 7\nr2 += r4\nr4 = r2\nJ: r0 = 0\nexit\nS: r2 = *(u32 *)(r8 + 0)\nr3 = *(u32 *)(r8 + 4)\n"
+            + "r4 = r9\nr4 &= 7\nr5 = r2\nr2 += r4\nr5 += r4\nr4 = r5\nr5 = 0\ngoto J",
+        "0 -1 23 4 14 1 1 -7792727461062311604",
+        "r8 = r1\nr9 = *(u32 *)(r1 + 8)\nif r9 == 9 goto S\nr2 = *(u32 *)(r8 + 0)\nr3 = *(u32 *)(r8 + 4)\nr4 "
+            + "= r9\nr4 &= 7\nr5 = r2\nr2 += r4\nr5 += r4\nr4 = r5\nr5 = 0\nJ: r0 = 0\nexit\nS: r2 = *(u32 *)(r8 + "
+            + "0)\nr3 = *(u32 *)(r8 + 4)\nr4 = r9\nr4 &= 7\nr2 += r4\nr4 = r2\ngoto J",
+        "0 -1 16 4 12 1 1 -5833273784910943927",
+        "r8 = r1\nr9 = *(u32 *)(r1 + 8)\nif r9 == 9 goto S\nr2 = *(u32 *)(r8 + 0)\nr3 = *(u32 *)(r8 + 4)\nJ: "
+            + "r0 = 0\nexit\nS: r2 = *(u32 *)(r8 + 0)\nr3 = *(u32 *)(r8 + 4)\nr4 = r9\nr4 &= 7\nr2 += r4\nr4 = 0\ng"
+            + "oto J",
+        "0 -1 16 4 11 1 1 -3521892802219719479",
+        "r8 = r1\nr9 = *(u32 *)(r1 + 8)\nif r9 == 9 goto S\nr2 = *(u32 *)(r8 + 0)\nr3 = *(u32 *)(r8 + 4)\nr4 "
+            + "= r9\nr4 &= 7\nr2 += r4\nr4 = 0\nJ: r0 = 0\nexit\nS: r2 = *(u32 *)(r8 + 0)\nr3 = *(u32 *)(r8 + 4)\ng"
+            + "oto J",
+        "0 -1 14 4 9 1 1 7357647699346731480",
+        "r8 = r1\nr9 = *(u32 *)(r1 + 8)\nif r9 == 9 goto S\nr2 = *(u32 *)(r8 + 0)\nr3 = *(u32 *)(r8 + 4)\nr4 "
+            + "= r2\nJ: r0 = 0\nexit\nS: r2 = *(u32 *)(r8 + 0)\nr3 = *(u32 *)(r8 + 4)\nr4 = r3\ngoto J",
+        "0 -1 14 4 9 1 1 4725674431537817403",
+        "r8 = r1\nr9 = *(u32 *)(r1 + 8)\nif r9 == 9 goto S\nr2 = *(u32 *)(r8 + 0)\nr3 = *(u32 *)(r8 + 4)\nr4 "
+            + "= r3\nJ: r0 = 0\nexit\nS: r2 = *(u32 *)(r8 + 0)\nr3 = *(u32 *)(r8 + 4)\nr4 = r2\ngoto J",
+        "0 -1 12 4 8 1 1 -901341083205752024",
+        "r8 = r1\nr9 = *(u32 *)(r1 + 8)\nif r9 == 9 goto S\nr4 = r10\nr4 += -8\nJ: r0 = 0\nexit\nS: r4 = r10\n"
+            + "r4 += -16\ngoto J",
+        "0 -1 12 4 8 1 1 5979869846618198848",
+        "r8 = r1\nr9 = *(u32 *)(r1 + 8)\nif r9 == 9 goto S\nr4 = r10\nr4 += -16\nJ: r0 = 0\nexit\nS: r4 = r10"
+            + "\nr4 += -8\ngoto J",
+        "0 -1 10 4 7 1 1 1573985174671014838",
+        "r8 = r1\nr9 = *(u32 *)(r1 + 8)\nif r9 == 9 goto S\nr4 = map 0\nJ: r0 = 0\nexit\nS: r4 = map 1\ngoto "
+            + "J",
+        "0 -1 10 4 7 1 1 -7974661810670301927",
+        "r8 = r1\nr9 = *(u32 *)(r1 + 8)\nif r9 == 9 goto S\nr4 = map 1\nJ: r0 = 0\nexit\nS: r4 = map 0\ngoto "
+            + "J",
+        "0 -1 10 4 7 1 1 -7828660524474166148",
+        "r8 = r1\nr9 = *(u32 *)(r1 + 8)\nif r9 == 9 goto S\nr4 = r8\nJ: r0 = 0\nexit\nS: r4 = r10\ngoto J",
+        "0 -1 10 4 7 1 1 -8159887273407538209",
+        "r8 = r1\nr9 = *(u32 *)(r1 + 8)\nif r9 == 9 goto S\nr4 = r10\nJ: r0 = 0\nexit\nS: r4 = r8\ngoto J",
+        "0 -1 10 4 7 1 1 -8822340771274282331",
+        "r8 = r1\nr9 = *(u32 *)(r1 + 8)\nif r9 == 9 goto S\n*(u64 *)(r10 - 8) = 7\nJ: r0 = 0\nexit\nS: *(u64 "
+            + "*)(r10 - 8) = r9\ngoto J",
+        "0 -1 8 3 7 1 1 1538764133584102489",
+        "r8 = r1\nr9 = *(u32 *)(r1 + 8)\nif r9 == 9 goto S\n*(u64 *)(r10 - 8) = r9\nJ: r0 = 0\nexit\nS: *(u64"
+            + " *)(r10 - 8) = 7\ngoto J",
+        "0 -1 11 4 8 1 1 -1122667871387243255",
+        "r8 = r1\nr9 = *(u32 *)(r1 + 8)\nif r9 == 9 goto S\n*(u64 *)(r10 - 8) = r8\nJ: r0 = 0\nexit\nS: *(u64"
+            + " *)(r10 - 8) = r8\n*(u8 *)(r10 - 3) = 1\ngoto J",
+        "0 -1 11 4 7 1 1 8721376780653549027",
+        "r8 = r1\nr9 = *(u32 *)(r1 + 8)\nif r9 == 9 goto S\n*(u64 *)(r10 - 8) = r8\n*(u8 *)(r10 - 3) = 1\nJ: "
+            + "r0 = 0\nexit\nS: *(u64 *)(r10 - 8) = r8\ngoto J",
+        "0 -1 10 4 7 1 1 -8822340771274282331",
+        "r8 = r1\nr9 = *(u32 *)(r1 + 8)\nif r9 == 9 goto S\n*(u16 *)(r10 - 8) = 1\nJ: r0 = 0\nexit\nS: *(u16 "
+            + "*)(r10 - 7) = 1\ngoto J",
+        "0 -1 10 4 7 1 1 -8822340771274282331",
+        "r8 = r1\nr9 = *(u32 *)(r1 + 8)\nif r9 == 9 goto S\n*(u16 *)(r10 - 7) = 1\nJ: r0 = 0\nexit\nS: *(u16 "
+            + "*)(r10 - 8) = 1\ngoto J",
+        "0 -1 10 3 8 1 1 7556609413058490619",
+        "r8 = r1\nr9 = *(u32 *)(r1 + 8)\nif r9 == 9 goto S\n*(u16 *)(r10 - 8) = 1\n*(u8 *)(r10 - 6) = 1\nJ: r"
+            + "0 = 0\nexit\nS: *(u16 *)(r10 - 7) = 1\n*(u8 *)(r10 - 8) = 2\ngoto J",
+        "0 -1 10 3 8 1 1 7556609413058490619",
+        "r8 = r1\nr9 = *(u32 *)(r1 + 8)\nif r9 == 9 goto S\n*(u16 *)(r10 - 7) = 1\n*(u8 *)(r10 - 8) = 2\nJ: r"
+            + "0 = 0\nexit\nS: *(u16 *)(r10 - 8) = 1\n*(u8 *)(r10 - 6) = 1\ngoto J",
+        "0 -1 10 4 7 1 1 -8822340771274282331",
+        "r8 = r1\nr9 = *(u32 *)(r1 + 8)\nif r9 == 9 goto S\n*(u64 *)(r10 - 8) = r8\nJ: r0 = 0\nexit\nS: *(u64"
+            + " *)(r10 - 8) = r10\ngoto J",
+        "0 -1 10 4 7 1 1 -8822340771274282331",
+        "r8 = r1\nr9 = *(u32 *)(r1 + 8)\nif r9 == 9 goto S\n*(u64 *)(r10 - 8) = r10\nJ: r0 = 0\nexit\nS: *(u6"
+            + "4 *)(r10 - 8) = r8\ngoto J",
+        "0 -1 10 4 7 1 1 -8822340771274282331",
+        "r8 = r1\nr9 = *(u32 *)(r1 + 8)\nif r9 == 9 goto S\n*(u8 *)(r10 - 8) = 1\nJ: r0 = 0\nexit\nS: *(u64 *"
+            + ")(r10 - 8) = r10\ngoto J",
+        "0 -1 10 4 7 1 1 -8822340771274282331",
+        "r8 = r1\nr9 = *(u32 *)(r1 + 8)\nif r9 == 9 goto S\n*(u64 *)(r10 - 8) = r10\nJ: r0 = 0\nexit\nS: *(u8"
+            + " *)(r10 - 8) = 1\ngoto J",
+        "0 -1 21 4 17 1 1 4152611717578216254",
+        "r9 = *(u32 *)(r1 + 8)\nr2 = 0\nif r9 == 9 goto S\nJ: r0 = 0\nr0 = 1\nr0 = 2\nexit\nS: r2 = 0\nr0 = 7"
+            + "\nr0 = 8\nr0 = 9\nr2 = 1\nr2 = 0\ncall 5\ngoto K\nK: r3 = 1\nr2 = 0\nr1 = 1\nr0 = 0\ngoto M\nM: exit",
+        "0 -1 14 3 14 1 1 -264518539359537970",
+        "r8 = r1\nr9 = *(u32 *)(r1 + 8)\ncall 5\nif r9 == 9 goto S\nJ: r0 = 0\nr0 = 1\nr0 = 2\nexit\nS: r6 = "
+            + "0\nr6 = 7\nr6 = 8\nr7 = 9\nr7 = 1\ngoto J",
+        "0 -1 50 15 17 3 1 -1562303052146660558",
+        "r8 = r1\nr9 = *(u32 *)(r1 + 8)\ncall 5\nif r9 & 1 goto A\nr6 = 0\nr6 = 1\nA: r7 = 0\nif r9 & 2 goto "
+            + "B\nr7 = 0\nr7 = 1\nB: r0 = 0\nif r9 & 4 goto C\nr0 = 0\nr0 = 1\nr0 = 2\nC: r0 = 0\nexit",
+        "0 -1 52 14 24 3 1 8432892147415056166",
+        "r9 = *(u32 *)(r1 + 8)\nr8 = r1\nr2 = r9\nr2 &= 6\nr3 = 5\nr1 = r2\nr4 = r3\nif r2 s> r3 goto +2\nr5 "
+            + "= 1\ngoto +1\nr0 = 2\nr2 = r1\nr3 = r4\nif r2 > r3 goto +2\nr5 = 1\ngoto +1\nr0 = 2\nr2 = r1\nr3 = r"
+            + "4\nif r2 s<= r3 goto +2\nr5 = 1\ngoto +1\nr0 = 2\nr2 = r1\nr3 = r4\nr0 = 0\nexit",
+        "0 -1 48 13 25 3 1 6900429410141650831",
+        "r9 = *(u32 *)(r1 + 8)\nr8 = r1\nr2 = r9\nr2 &= 6\nr3 = r9\nr3 &= 15\nr1 = r2\nr4 = r3\nif r2 s> r3 g"
+            + "oto +2\nr5 = 1\ngoto +1\nr0 = 2\nr2 = r1\nr3 = r4\nif r2 > r3 goto +2\nr5 = 1\ngoto +1\nr0 = 2\nr2 ="
+            + " r1\nr3 = r4\nif r2 s<= r3 goto +2\nr5 = 1\ngoto +1\nr0 = 2\nr2 = r1\nr3 = r4\nr0 = 0\nexit",
+        "0 -1 25 5 25 0 1 2137181331459226452",
+        "r9 = *(u32 *)(r1 + 8)\nr8 = r1\nr2 = r9\nr2 &= 6\nr3 = r9\nr3 &= 7\nr3 += 6\nr1 = r2\nr4 = r3\nif r2"
+            + " s> r3 goto +2\nr5 = 1\ngoto +1\nr0 = 2\nr2 = r1\nr3 = r4\nif r2 > r3 goto +2\nr5 = 1\ngoto +1\nr0 ="
+            + " 2\nr2 = r1\nr3 = r4\nif r2 s<= r3 goto +2\nr5 = 1\ngoto +1\nr0 = 2\nr2 = r1\nr3 = r4\nr0 = 0\nexit",
+        "0 -1 25 5 25 0 1 -1943371105999925506",
+        "r9 = *(u32 *)(r1 + 8)\nr8 = r1\nr2 = r9\nr2 &= 6\nr3 = r9\nr3 &= 7\nr3 -= 13\nr1 = r2\nr4 = r3\nif r"
+            + "2 s> r3 goto +2\nr5 = 1\ngoto +1\nr0 = 2\nr2 = r1\nr3 = r4\nif r2 > r3 goto +2\nr5 = 1\ngoto +1\nr0 "
+            + "= 2\nr2 = r1\nr3 = r4\nif r2 s<= r3 goto +2\nr5 = 1\ngoto +1\nr0 = 2\nr2 = r1\nr3 = r4\nr0 = 0\nexit",
+        "0 -1 23 5 23 0 1 -2614517274416027372",
+        "r9 = *(u32 *)(r1 + 8)\nr8 = r1\nr2 = r9\nr2 &= 6\nr3 = -1\nr1 = r2\nr4 = r3\nif r2 s> r3 goto +2\nr5"
+            + " = 1\ngoto +1\nr0 = 2\nr2 = r1\nr3 = r4\nif r2 > r3 goto +2\nr5 = 1\ngoto +1\nr0 = 2\nr2 = r1\nr3 = "
+            + "r4\nif r2 s<= r3 goto +2\nr5 = 1\ngoto +1\nr0 = 2\nr2 = r1\nr3 = r4\nr0 = 0\nexit",
+        "0 -1 48 13 25 3 1 525460614577238513",
+        "r9 = *(u32 *)(r1 + 8)\nr8 = r1\nr2 = r9\nr2 &= 6\nr3 = r9\nr3 &= 16\nr1 = r2\nr4 = r3\nif r2 s> r3 g"
+            + "oto +2\nr5 = 1\ngoto +1\nr0 = 2\nr2 = r1\nr3 = r4\nif r2 > r3 goto +2\nr5 = 1\ngoto +1\nr0 = 2\nr2 ="
+            + " r1\nr3 = r4\nif r2 s<= r3 goto +2\nr5 = 1\ngoto +1\nr0 = 2\nr2 = r1\nr3 = r4\nr0 = 0\nexit",
+        "0 -1 47 13 24 3 1 1902754950086958432",
+        "r9 = *(u32 *)(r1 + 8)\nr8 = r1\nr2 = r9\nr2 &= 6\nr3 = r2\nr1 = r2\nr4 = r3\nif r2 s> r3 goto +2\nr5"
+            + " = 1\ngoto +1\nr0 = 2\nr2 = r1\nr3 = r4\nif r2 > r3 goto +2\nr5 = 1\ngoto +1\nr0 = 2\nr2 = r1\nr3 = "
+            + "r4\nif r2 s<= r3 goto +2\nr5 = 1\ngoto +1\nr0 = 2\nr2 = r1\nr3 = r4\nr0 = 0\nexit",
+        "0 -1 52 14 24 3 1 -8263227857900244518",
+        "r9 = *(u32 *)(r1 + 8)\nr8 = r1\nr2 = r9\nr2 |= 1\nr3 = 5\nr1 = r2\nr4 = r3\nif r2 s> r3 goto +2\nr5 "
+            + "= 1\ngoto +1\nr0 = 2\nr2 = r1\nr3 = r4\nif r2 > r3 goto +2\nr5 = 1\ngoto +1\nr0 = 2\nr2 = r1\nr3 = r"
+            + "4\nif r2 s<= r3 goto +2\nr5 = 1\ngoto +1\nr0 = 2\nr2 = r1\nr3 = r4\nr0 = 0\nexit",
+        "0 -1 49 13 25 3 1 7055435167915348598",
+        "r9 = *(u32 *)(r1 + 8)\nr8 = r1\nr2 = r9\nr2 |= 1\nr3 = r9\nr3 &= 15\nr1 = r2\nr4 = r3\nif r2 s> r3 g"
+            + "oto +2\nr5 = 1\ngoto +1\nr0 = 2\nr2 = r1\nr3 = r4\nif r2 > r3 goto +2\nr5 = 1\ngoto +1\nr0 = 2\nr2 ="
+            + " r1\nr3 = r4\nif r2 s<= r3 goto +2\nr5 = 1\ngoto +1\nr0 = 2\nr2 = r1\nr3 = r4\nr0 = 0\nexit",
+        "0 -1 54 14 26 3 1 -63872172718918090",
+        "r9 = *(u32 *)(r1 + 8)\nr8 = r1\nr2 = r9\nr2 |= 1\nr3 = r9\nr3 &= 7\nr3 += 6\nr1 = r2\nr4 = r3\nif r2"
+            + " s> r3 goto +2\nr5 = 1\ngoto +1\nr0 = 2\nr2 = r1\nr3 = r4\nif r2 > r3 goto +2\nr5 = 1\ngoto +1\nr0 ="
+            + " 2\nr2 = r1\nr3 = r4\nif r2 s<= r3 goto +2\nr5 = 1\ngoto +1\nr0 = 2\nr2 = r1\nr3 = r4\nr0 = 0\nexit",
+        "0 -1 25 5 25 0 1 -7478211512567665804",
+        "r9 = *(u32 *)(r1 + 8)\nr8 = r1\nr2 = r9\nr2 |= 1\nr3 = r9\nr3 &= 7\nr3 -= 13\nr1 = r2\nr4 = r3\nif r"
+            + "2 s> r3 goto +2\nr5 = 1\ngoto +1\nr0 = 2\nr2 = r1\nr3 = r4\nif r2 > r3 goto +2\nr5 = 1\ngoto +1\nr0 "
+            + "= 2\nr2 = r1\nr3 = r4\nif r2 s<= r3 goto +2\nr5 = 1\ngoto +1\nr0 = 2\nr2 = r1\nr3 = r4\nr0 = 0\nexit",
+        "0 -1 23 5 23 0 1 -8494031613338953000",
+        "r9 = *(u32 *)(r1 + 8)\nr8 = r1\nr2 = r9\nr2 |= 1\nr3 = -1\nr1 = r2\nr4 = r3\nif r2 s> r3 goto +2\nr5"
+            + " = 1\ngoto +1\nr0 = 2\nr2 = r1\nr3 = r4\nif r2 > r3 goto +2\nr5 = 1\ngoto +1\nr0 = 2\nr2 = r1\nr3 = "
+            + "r4\nif r2 s<= r3 goto +2\nr5 = 1\ngoto +1\nr0 = 2\nr2 = r1\nr3 = r4\nr0 = 0\nexit",
+        "0 -1 49 13 25 3 1 -4530961990402081332",
+        "r9 = *(u32 *)(r1 + 8)\nr8 = r1\nr2 = r9\nr2 |= 1\nr3 = r9\nr3 &= 16\nr1 = r2\nr4 = r3\nif r2 s> r3 g"
+            + "oto +2\nr5 = 1\ngoto +1\nr0 = 2\nr2 = r1\nr3 = r4\nif r2 > r3 goto +2\nr5 = 1\ngoto +1\nr0 = 2\nr2 ="
+            + " r1\nr3 = r4\nif r2 s<= r3 goto +2\nr5 = 1\ngoto +1\nr0 = 2\nr2 = r1\nr3 = r4\nr0 = 0\nexit",
+        "0 -1 47 13 24 3 1 9069177784547716870",
+        "r9 = *(u32 *)(r1 + 8)\nr8 = r1\nr2 = r9\nr2 |= 1\nr3 = r2\nr1 = r2\nr4 = r3\nif r2 s> r3 goto +2\nr5"
+            + " = 1\ngoto +1\nr0 = 2\nr2 = r1\nr3 = r4\nif r2 > r3 goto +2\nr5 = 1\ngoto +1\nr0 = 2\nr2 = r1\nr3 = "
+            + "r4\nif r2 s<= r3 goto +2\nr5 = 1\ngoto +1\nr0 = 2\nr2 = r1\nr3 = r4\nr0 = 0\nexit",
+        "0 -1 22 5 22 0 1 -270783532512303214",
+        "r9 = *(u32 *)(r1 + 8)\nr8 = r1\nr2 = 5\nr3 = 5\nr1 = r2\nr4 = r3\nif r2 s> r3 goto +2\nr5 = 1\ngoto "
+            + "+1\nr0 = 2\nr2 = r1\nr3 = r4\nif r2 > r3 goto +2\nr5 = 1\ngoto +1\nr0 = 2\nr2 = r1\nr3 = r4\nif r2 s"
+            + "<= r3 goto +2\nr5 = 1\ngoto +1\nr0 = 2\nr2 = r1\nr3 = r4\nr0 = 0\nexit",
+        "0 -1 52 14 24 3 1 7048574593182731300",
+        "r9 = *(u32 *)(r1 + 8)\nr8 = r1\nr2 = 5\nr3 = r9\nr3 &= 15\nr1 = r2\nr4 = r3\nif r2 s> r3 goto +2\nr5"
+            + " = 1\ngoto +1\nr0 = 2\nr2 = r1\nr3 = r4\nif r2 > r3 goto +2\nr5 = 1\ngoto +1\nr0 = 2\nr2 = r1\nr3 = "
+            + "r4\nif r2 s<= r3 goto +2\nr5 = 1\ngoto +1\nr0 = 2\nr2 = r1\nr3 = r4\nr0 = 0\nexit",
+        "0 -1 24 5 24 0 1 -546081253194591874",
+        "r9 = *(u32 *)(r1 + 8)\nr8 = r1\nr2 = 5\nr3 = r9\nr3 &= 7\nr3 += 6\nr1 = r2\nr4 = r3\nif r2 s> r3 got"
+            + "o +2\nr5 = 1\ngoto +1\nr0 = 2\nr2 = r1\nr3 = r4\nif r2 > r3 goto +2\nr5 = 1\ngoto +1\nr0 = 2\nr2 = r"
+            + "1\nr3 = r4\nif r2 s<= r3 goto +2\nr5 = 1\ngoto +1\nr0 = 2\nr2 = r1\nr3 = r4\nr0 = 0\nexit",
+        "0 -1 24 5 24 0 1 1496724802078071080",
+        "r9 = *(u32 *)(r1 + 8)\nr8 = r1\nr2 = 5\nr3 = r9\nr3 &= 7\nr3 -= 13\nr1 = r2\nr4 = r3\nif r2 s> r3 go"
+            + "to +2\nr5 = 1\ngoto +1\nr0 = 2\nr2 = r1\nr3 = r4\nif r2 > r3 goto +2\nr5 = 1\ngoto +1\nr0 = 2\nr2 = "
+            + "r1\nr3 = r4\nif r2 s<= r3 goto +2\nr5 = 1\ngoto +1\nr0 = 2\nr2 = r1\nr3 = r4\nr0 = 0\nexit",
+        "0 -1 22 5 22 0 1 -4858217055785422576",
+        "r9 = *(u32 *)(r1 + 8)\nr8 = r1\nr2 = 5\nr3 = -1\nr1 = r2\nr4 = r3\nif r2 s> r3 goto +2\nr5 = 1\ngoto"
+            + " +1\nr0 = 2\nr2 = r1\nr3 = r4\nif r2 > r3 goto +2\nr5 = 1\ngoto +1\nr0 = 2\nr2 = r1\nr3 = r4\nif r2 "
+            + "s<= r3 goto +2\nr5 = 1\ngoto +1\nr0 = 2\nr2 = r1\nr3 = r4\nr0 = 0\nexit",
+        "0 -1 52 14 24 3 1 -7286994331256395402",
+        "r9 = *(u32 *)(r1 + 8)\nr8 = r1\nr2 = 5\nr3 = r9\nr3 &= 16\nr1 = r2\nr4 = r3\nif r2 s> r3 goto +2\nr5"
+            + " = 1\ngoto +1\nr0 = 2\nr2 = r1\nr3 = r4\nif r2 > r3 goto +2\nr5 = 1\ngoto +1\nr0 = 2\nr2 = r1\nr3 = "
+            + "r4\nif r2 s<= r3 goto +2\nr5 = 1\ngoto +1\nr0 = 2\nr2 = r1\nr3 = r4\nr0 = 0\nexit",
+        "0 -1 22 5 22 0 1 -270783532512303214",
+        "r9 = *(u32 *)(r1 + 8)\nr8 = r1\nr2 = 5\nr3 = r2\nr1 = r2\nr4 = r3\nif r2 s> r3 goto +2\nr5 = 1\ngoto"
+            + " +1\nr0 = 2\nr2 = r1\nr3 = r4\nif r2 > r3 goto +2\nr5 = 1\ngoto +1\nr0 = 2\nr2 = r1\nr3 = r4\nif r2 "
+            + "s<= r3 goto +2\nr5 = 1\ngoto +1\nr0 = 2\nr2 = r1\nr3 = r4\nr0 = 0\nexit",
+        "0 -1 21 6 21 0 1 3892789298685743378",
+        "r9 = *(u32 *)(r1 + 8)\nr8 = r1\nr2 = -5\nr3 = 5\nr1 = r2\nr4 = r3\nif r2 s> r3 goto +2\nr5 = 1\ngoto"
+            + " +1\nr0 = 2\nr2 = r1\nr3 = r4\nif r2 > r3 goto +2\nr5 = 1\ngoto +1\nr0 = 2\nr2 = r1\nr3 = r4\nif r2 "
+            + "s<= r3 goto +2\nr5 = 1\ngoto +1\nr0 = 2\nr2 = r1\nr3 = r4\nr0 = 0\nexit",
+        "0 -1 22 6 22 0 1 3074036234688271532",
+        "r9 = *(u32 *)(r1 + 8)\nr8 = r1\nr2 = -5\nr3 = r9\nr3 &= 15\nr1 = r2\nr4 = r3\nif r2 s> r3 goto +2\nr"
+            + "5 = 1\ngoto +1\nr0 = 2\nr2 = r1\nr3 = r4\nif r2 > r3 goto +2\nr5 = 1\ngoto +1\nr0 = 2\nr2 = r1\nr3 ="
+            + " r4\nif r2 s<= r3 goto +2\nr5 = 1\ngoto +1\nr0 = 2\nr2 = r1\nr3 = r4\nr0 = 0\nexit",
+        "0 -1 23 6 23 0 1 5263251341626062574",
+        "r9 = *(u32 *)(r1 + 8)\nr8 = r1\nr2 = -5\nr3 = r9\nr3 &= 7\nr3 += 6\nr1 = r2\nr4 = r3\nif r2 s> r3 go"
+            + "to +2\nr5 = 1\ngoto +1\nr0 = 2\nr2 = r1\nr3 = r4\nif r2 > r3 goto +2\nr5 = 1\ngoto +1\nr0 = 2\nr2 = "
+            + "r1\nr3 = r4\nif r2 s<= r3 goto +2\nr5 = 1\ngoto +1\nr0 = 2\nr2 = r1\nr3 = r4\nr0 = 0\nexit",
+        "0 -1 23 6 23 0 1 7549719139131903315",
+        "r9 = *(u32 *)(r1 + 8)\nr8 = r1\nr2 = -5\nr3 = r9\nr3 &= 7\nr3 -= 13\nr1 = r2\nr4 = r3\nif r2 s> r3 g"
+            + "oto +2\nr5 = 1\ngoto +1\nr0 = 2\nr2 = r1\nr3 = r4\nif r2 > r3 goto +2\nr5 = 1\ngoto +1\nr0 = 2\nr2 ="
+            + " r1\nr3 = r4\nif r2 s<= r3 goto +2\nr5 = 1\ngoto +1\nr0 = 2\nr2 = r1\nr3 = r4\nr0 = 0\nexit",
+        "0 -1 22 5 22 0 1 1164974815094832350",
+        "r9 = *(u32 *)(r1 + 8)\nr8 = r1\nr2 = -5\nr3 = -1\nr1 = r2\nr4 = r3\nif r2 s> r3 goto +2\nr5 = 1\ngot"
+            + "o +1\nr0 = 2\nr2 = r1\nr3 = r4\nif r2 > r3 goto +2\nr5 = 1\ngoto +1\nr0 = 2\nr2 = r1\nr3 = r4\nif r2"
+            + " s<= r3 goto +2\nr5 = 1\ngoto +1\nr0 = 2\nr2 = r1\nr3 = r4\nr0 = 0\nexit",
+        "0 -1 22 6 22 0 1 680747304825885068",
+        "r9 = *(u32 *)(r1 + 8)\nr8 = r1\nr2 = -5\nr3 = r9\nr3 &= 16\nr1 = r2\nr4 = r3\nif r2 s> r3 goto +2\nr"
+            + "5 = 1\ngoto +1\nr0 = 2\nr2 = r1\nr3 = r4\nif r2 > r3 goto +2\nr5 = 1\ngoto +1\nr0 = 2\nr2 = r1\nr3 ="
+            + " r4\nif r2 s<= r3 goto +2\nr5 = 1\ngoto +1\nr0 = 2\nr2 = r1\nr3 = r4\nr0 = 0\nexit",
+        "0 -1 22 5 22 0 1 -7302344722611554218",
+        "r9 = *(u32 *)(r1 + 8)\nr8 = r1\nr2 = -5\nr3 = r2\nr1 = r2\nr4 = r3\nif r2 s> r3 goto +2\nr5 = 1\ngot"
+            + "o +1\nr0 = 2\nr2 = r1\nr3 = r4\nif r2 > r3 goto +2\nr5 = 1\ngoto +1\nr0 = 2\nr2 = r1\nr3 = r4\nif r2"
+            + " s<= r3 goto +2\nr5 = 1\ngoto +1\nr0 = 2\nr2 = r1\nr3 = r4\nr0 = 0\nexit",
+        "0 -1 23 6 23 0 1 -6335625677762766505",
+        "r9 = *(u32 *)(r1 + 8)\nr8 = r1\nr2 = r9\nr2 &= 15\nr2 += 20\nr3 = 5\nr1 = r2\nr4 = r3\nif r2 s> r3 g"
+            + "oto +2\nr5 = 1\ngoto +1\nr0 = 2\nr2 = r1\nr3 = r4\nif r2 > r3 goto +2\nr5 = 1\ngoto +1\nr0 = 2\nr2 ="
+            + " r1\nr3 = r4\nif r2 s<= r3 goto +2\nr5 = 1\ngoto +1\nr0 = 2\nr2 = r1\nr3 = r4\nr0 = 0\nexit",
+        "0 -1 24 6 24 0 1 -6383089120876221063",
+        "r9 = *(u32 *)(r1 + 8)\nr8 = r1\nr2 = r9\nr2 &= 15\nr2 += 20\nr3 = r9\nr3 &= 15\nr1 = r2\nr4 = r3\nif"
+            + " r2 s> r3 goto +2\nr5 = 1\ngoto +1\nr0 = 2\nr2 = r1\nr3 = r4\nif r2 > r3 goto +2\nr5 = 1\ngoto +1\nr"
+            + "0 = 2\nr2 = r1\nr3 = r4\nif r2 s<= r3 goto +2\nr5 = 1\ngoto +1\nr0 = 2\nr2 = r1\nr3 = r4\nr0 = 0\nex"
+            + "it",
+        "0 -1 25 6 25 0 1 3765027582794634307",
+        "r9 = *(u32 *)(r1 + 8)\nr8 = r1\nr2 = r9\nr2 &= 15\nr2 += 20\nr3 = r9\nr3 &= 7\nr3 += 6\nr1 = r2\nr4 "
+            + "= r3\nif r2 s> r3 goto +2\nr5 = 1\ngoto +1\nr0 = 2\nr2 = r1\nr3 = r4\nif r2 > r3 goto +2\nr5 = 1\ngo"
+            + "to +1\nr0 = 2\nr2 = r1\nr3 = r4\nif r2 s<= r3 goto +2\nr5 = 1\ngoto +1\nr0 = 2\nr2 = r1\nr3 = r4\nr0"
+            + " = 0\nexit",
+        "0 -1 26 5 26 0 1 179837948272322604",
+        "r9 = *(u32 *)(r1 + 8)\nr8 = r1\nr2 = r9\nr2 &= 15\nr2 += 20\nr3 = r9\nr3 &= 7\nr3 -= 13\nr1 = r2\nr4"
+            + " = r3\nif r2 s> r3 goto +2\nr5 = 1\ngoto +1\nr0 = 2\nr2 = r1\nr3 = r4\nif r2 > r3 goto +2\nr5 = 1\ng"
+            + "oto +1\nr0 = 2\nr2 = r1\nr3 = r4\nif r2 s<= r3 goto +2\nr5 = 1\ngoto +1\nr0 = 2\nr2 = r1\nr3 = r4\nr"
+            + "0 = 0\nexit",
+        "0 -1 24 5 24 0 1 3222122763559983128",
+        "r9 = *(u32 *)(r1 + 8)\nr8 = r1\nr2 = r9\nr2 &= 15\nr2 += 20\nr3 = -1\nr1 = r2\nr4 = r3\nif r2 s> r3 "
+            + "goto +2\nr5 = 1\ngoto +1\nr0 = 2\nr2 = r1\nr3 = r4\nif r2 > r3 goto +2\nr5 = 1\ngoto +1\nr0 = 2\nr2 "
+            + "= r1\nr3 = r4\nif r2 s<= r3 goto +2\nr5 = 1\ngoto +1\nr0 = 2\nr2 = r1\nr3 = r4\nr0 = 0\nexit",
+        "0 -1 24 6 24 0 1 -8723925157226944935",
+        "r9 = *(u32 *)(r1 + 8)\nr8 = r1\nr2 = r9\nr2 &= 15\nr2 += 20\nr3 = r9\nr3 &= 16\nr1 = r2\nr4 = r3\nif"
+            + " r2 s> r3 goto +2\nr5 = 1\ngoto +1\nr0 = 2\nr2 = r1\nr3 = r4\nif r2 > r3 goto +2\nr5 = 1\ngoto +1\nr"
+            + "0 = 2\nr2 = r1\nr3 = r4\nif r2 s<= r3 goto +2\nr5 = 1\ngoto +1\nr0 = 2\nr2 = r1\nr3 = r4\nr0 = 0\nex"
+            + "it",
+        "0 -1 48 13 25 3 1 -1777493043127554818",
+        "r9 = *(u32 *)(r1 + 8)\nr8 = r1\nr2 = r9\nr2 &= 15\nr2 += 20\nr3 = r2\nr1 = r2\nr4 = r3\nif r2 s> r3 "
+            + "goto +2\nr5 = 1\ngoto +1\nr0 = 2\nr2 = r1\nr3 = r4\nif r2 > r3 goto +2\nr5 = 1\ngoto +1\nr0 = 2\nr2 "
+            + "= r1\nr3 = r4\nif r2 s<= r3 goto +2\nr5 = 1\ngoto +1\nr0 = 2\nr2 = r1\nr3 = r4\nr0 = 0\nexit",
+        "0 -1 53 14 25 3 1 -8892329726939111486",
+        "r9 = *(u32 *)(r1 + 8)\nr8 = r1\nr2 = r9\nr2 &= 15\nr2 -= 8\nr3 = 5\nr1 = r2\nr4 = r3\nif r2 s> r3 go"
+            + "to +2\nr5 = 1\ngoto +1\nr0 = 2\nr2 = r1\nr3 = r4\nif r2 > r3 goto +2\nr5 = 1\ngoto +1\nr0 = 2\nr2 = "
+            + "r1\nr3 = r4\nif r2 s<= r3 goto +2\nr5 = 1\ngoto +1\nr0 = 2\nr2 = r1\nr3 = r4\nr0 = 0\nexit",
+        "0 -1 54 14 26 3 1 7539053117187404784",
+        "r9 = *(u32 *)(r1 + 8)\nr8 = r1\nr2 = r9\nr2 &= 15\nr2 -= 8\nr3 = r9\nr3 &= 15\nr1 = r2\nr4 = r3\nif "
+            + "r2 s> r3 goto +2\nr5 = 1\ngoto +1\nr0 = 2\nr2 = r1\nr3 = r4\nif r2 > r3 goto +2\nr5 = 1\ngoto +1\nr0"
+            + " = 2\nr2 = r1\nr3 = r4\nif r2 s<= r3 goto +2\nr5 = 1\ngoto +1\nr0 = 2\nr2 = r1\nr3 = r4\nr0 = 0\nexi"
+            + "t",
+        "0 -1 55 14 27 3 1 -2277724601172694225",
+        "r9 = *(u32 *)(r1 + 8)\nr8 = r1\nr2 = r9\nr2 &= 15\nr2 -= 8\nr3 = r9\nr3 &= 7\nr3 += 6\nr1 = r2\nr4 ="
+            + " r3\nif r2 s> r3 goto +2\nr5 = 1\ngoto +1\nr0 = 2\nr2 = r1\nr3 = r4\nif r2 > r3 goto +2\nr5 = 1\ngot"
+            + "o +1\nr0 = 2\nr2 = r1\nr3 = r4\nif r2 s<= r3 goto +2\nr5 = 1\ngoto +1\nr0 = 2\nr2 = r1\nr3 = r4\nr0 "
+            + "= 0\nexit",
+        "0 -1 51 13 27 3 1 -4224151876293667810",
+        "r9 = *(u32 *)(r1 + 8)\nr8 = r1\nr2 = r9\nr2 &= 15\nr2 -= 8\nr3 = r9\nr3 &= 7\nr3 -= 13\nr1 = r2\nr4 "
+            + "= r3\nif r2 s> r3 goto +2\nr5 = 1\ngoto +1\nr0 = 2\nr2 = r1\nr3 = r4\nif r2 > r3 goto +2\nr5 = 1\ngo"
+            + "to +1\nr0 = 2\nr2 = r1\nr3 = r4\nif r2 s<= r3 goto +2\nr5 = 1\ngoto +1\nr0 = 2\nr2 = r1\nr3 = r4\nr0"
+            + " = 0\nexit",
+        "0 -1 36 8 25 2 1 -7252553654375639181",
+        "r9 = *(u32 *)(r1 + 8)\nr8 = r1\nr2 = r9\nr2 &= 15\nr2 -= 8\nr3 = -1\nr1 = r2\nr4 = r3\nif r2 s> r3 g"
+            + "oto +2\nr5 = 1\ngoto +1\nr0 = 2\nr2 = r1\nr3 = r4\nif r2 > r3 goto +2\nr5 = 1\ngoto +1\nr0 = 2\nr2 ="
+            + " r1\nr3 = r4\nif r2 s<= r3 goto +2\nr5 = 1\ngoto +1\nr0 = 2\nr2 = r1\nr3 = r4\nr0 = 0\nexit",
+        "0 -1 54 14 26 3 1 -906595684810039490",
+        "r9 = *(u32 *)(r1 + 8)\nr8 = r1\nr2 = r9\nr2 &= 15\nr2 -= 8\nr3 = r9\nr3 &= 16\nr1 = r2\nr4 = r3\nif "
+            + "r2 s> r3 goto +2\nr5 = 1\ngoto +1\nr0 = 2\nr2 = r1\nr3 = r4\nif r2 > r3 goto +2\nr5 = 1\ngoto +1\nr0"
+            + " = 2\nr2 = r1\nr3 = r4\nif r2 s<= r3 goto +2\nr5 = 1\ngoto +1\nr0 = 2\nr2 = r1\nr3 = r4\nr0 = 0\nexi"
+            + "t",
+        "0 -1 48 13 25 3 1 -2363506470869985136",
+        "r9 = *(u32 *)(r1 + 8)\nr8 = r1\nr2 = r9\nr2 &= 15\nr2 -= 8\nr3 = r2\nr1 = r2\nr4 = r3\nif r2 s> r3 g"
+            + "oto +2\nr5 = 1\ngoto +1\nr0 = 2\nr2 = r1\nr3 = r4\nif r2 > r3 goto +2\nr5 = 1\ngoto +1\nr0 = 2\nr2 ="
+            + " r1\nr3 = r4\nif r2 s<= r3 goto +2\nr5 = 1\ngoto +1\nr0 = 2\nr2 = r1\nr3 = r4\nr0 = 0\nexit",
+        "0 -1 52 14 24 3 1 -8028015697810322442",
+        "r9 = *(u32 *)(r1 + 8)\nr8 = r1\ncall 5\nr2 = r0\nr3 = 5\nr1 = r2\nr4 = r3\nif r2 s> r3 goto +2\nr5 ="
+            + " 1\ngoto +1\nr0 = 2\nr2 = r1\nr3 = r4\nif r2 > r3 goto +2\nr5 = 1\ngoto +1\nr0 = 2\nr2 = r1\nr3 = r4"
+            + "\nif r2 s<= r3 goto +2\nr5 = 1\ngoto +1\nr0 = 2\nr2 = r1\nr3 = r4\nr0 = 0\nexit",
+        "0 -1 53 14 25 3 1 2935360359166535734",
+        "r9 = *(u32 *)(r1 + 8)\nr8 = r1\ncall 5\nr2 = r0\nr3 = r9\nr3 &= 15\nr1 = r2\nr4 = r3\nif r2 s> r3 go"
+            + "to +2\nr5 = 1\ngoto +1\nr0 = 2\nr2 = r1\nr3 = r4\nif r2 > r3 goto +2\nr5 = 1\ngoto +1\nr0 = 2\nr2 = "
+            + "r1\nr3 = r4\nif r2 s<= r3 goto +2\nr5 = 1\ngoto +1\nr0 = 2\nr2 = r1\nr3 = r4\nr0 = 0\nexit",
+        "0 -1 54 14 26 3 1 -5392926298632183856",
+        "r9 = *(u32 *)(r1 + 8)\nr8 = r1\ncall 5\nr2 = r0\nr3 = r9\nr3 &= 7\nr3 += 6\nr1 = r2\nr4 = r3\nif r2 "
+            + "s> r3 goto +2\nr5 = 1\ngoto +1\nr0 = 2\nr2 = r1\nr3 = r4\nif r2 > r3 goto +2\nr5 = 1\ngoto +1\nr0 = "
+            + "2\nr2 = r1\nr3 = r4\nif r2 s<= r3 goto +2\nr5 = 1\ngoto +1\nr0 = 2\nr2 = r1\nr3 = r4\nr0 = 0\nexit",
+        "0 -1 54 14 26 3 1 -3515616882268554036",
+        "r9 = *(u32 *)(r1 + 8)\nr8 = r1\ncall 5\nr2 = r0\nr3 = r9\nr3 &= 7\nr3 -= 13\nr1 = r2\nr4 = r3\nif r2"
+            + " s> r3 goto +2\nr5 = 1\ngoto +1\nr0 = 2\nr2 = r1\nr3 = r4\nif r2 > r3 goto +2\nr5 = 1\ngoto +1\nr0 ="
+            + " 2\nr2 = r1\nr3 = r4\nif r2 s<= r3 goto +2\nr5 = 1\ngoto +1\nr0 = 2\nr2 = r1\nr3 = r4\nr0 = 0\nexit",
+        "0 -1 35 8 24 2 1 2204662611926045891",
+        "r9 = *(u32 *)(r1 + 8)\nr8 = r1\ncall 5\nr2 = r0\nr3 = -1\nr1 = r2\nr4 = r3\nif r2 s> r3 goto +2\nr5 "
+            + "= 1\ngoto +1\nr0 = 2\nr2 = r1\nr3 = r4\nif r2 > r3 goto +2\nr5 = 1\ngoto +1\nr0 = 2\nr2 = r1\nr3 = r"
+            + "4\nif r2 s<= r3 goto +2\nr5 = 1\ngoto +1\nr0 = 2\nr2 = r1\nr3 = r4\nr0 = 0\nexit",
+        "0 -1 53 14 25 3 1 -3079519192353396400",
+        "r9 = *(u32 *)(r1 + 8)\nr8 = r1\ncall 5\nr2 = r0\nr3 = r9\nr3 &= 16\nr1 = r2\nr4 = r3\nif r2 s> r3 go"
+            + "to +2\nr5 = 1\ngoto +1\nr0 = 2\nr2 = r1\nr3 = r4\nif r2 > r3 goto +2\nr5 = 1\ngoto +1\nr0 = 2\nr2 = "
+            + "r1\nr3 = r4\nif r2 s<= r3 goto +2\nr5 = 1\ngoto +1\nr0 = 2\nr2 = r1\nr3 = r4\nr0 = 0\nexit",
+        "0 -1 47 13 24 3 1 -6809769944800984396",
+        "r9 = *(u32 *)(r1 + 8)\nr8 = r1\ncall 5\nr2 = r0\nr3 = r2\nr1 = r2\nr4 = r3\nif r2 s> r3 goto +2\nr5 "
+            + "= 1\ngoto +1\nr0 = 2\nr2 = r1\nr3 = r4\nif r2 > r3 goto +2\nr5 = 1\ngoto +1\nr0 = 2\nr2 = r1\nr3 = r"
+            + "4\nif r2 s<= r3 goto +2\nr5 = 1\ngoto +1\nr0 = 2\nr2 = r1\nr3 = r4\nr0 = 0\nexit",
+        "0 -1 53 14 25 3 1 -1644346687320202097",
+        "r9 = *(u32 *)(r1 + 8)\nr8 = r1\nr2 = r9\nr2 <<= 33\nr2 s>>= 60\nr3 = 5\nr1 = r2\nr4 = r3\nif r2 s> r"
+            + "3 goto +2\nr5 = 1\ngoto +1\nr0 = 2\nr2 = r1\nr3 = r4\nif r2 > r3 goto +2\nr5 = 1\ngoto +1\nr0 = 2\nr"
+            + "2 = r1\nr3 = r4\nif r2 s<= r3 goto +2\nr5 = 1\ngoto +1\nr0 = 2\nr2 = r1\nr3 = r4\nr0 = 0\nexit",
+        "0 -1 54 14 26 3 1 6279793467065740861",
+        "r9 = *(u32 *)(r1 + 8)\nr8 = r1\nr2 = r9\nr2 <<= 33\nr2 s>>= 60\nr3 = r9\nr3 &= 15\nr1 = r2\nr4 = r3\n"
+            + "if r2 s> r3 goto +2\nr5 = 1\ngoto +1\nr0 = 2\nr2 = r1\nr3 = r4\nif r2 > r3 goto +2\nr5 = 1\ngoto +1\n"
+            + "r0 = 2\nr2 = r1\nr3 = r4\nif r2 s<= r3 goto +2\nr5 = 1\ngoto +1\nr0 = 2\nr2 = r1\nr3 = r4\nr0 = 0\ne"
+            + "xit",
+        "0 -1 55 14 27 3 1 3093145555599334140",
+        "r9 = *(u32 *)(r1 + 8)\nr8 = r1\nr2 = r9\nr2 <<= 33\nr2 s>>= 60\nr3 = r9\nr3 &= 7\nr3 += 6\nr1 = r2\n"
+            + "r4 = r3\nif r2 s> r3 goto +2\nr5 = 1\ngoto +1\nr0 = 2\nr2 = r1\nr3 = r4\nif r2 > r3 goto +2\nr5 = 1\n"
+            + "goto +1\nr0 = 2\nr2 = r1\nr3 = r4\nif r2 s<= r3 goto +2\nr5 = 1\ngoto +1\nr0 = 2\nr2 = r1\nr3 = r4\n"
+            + "r0 = 0\nexit",
+        "0 -1 51 13 27 3 1 1146718280478360555",
+        "r9 = *(u32 *)(r1 + 8)\nr8 = r1\nr2 = r9\nr2 <<= 33\nr2 s>>= 60\nr3 = r9\nr3 &= 7\nr3 -= 13\nr1 = r2\n"
+            + "r4 = r3\nif r2 s> r3 goto +2\nr5 = 1\ngoto +1\nr0 = 2\nr2 = r1\nr3 = r4\nif r2 > r3 goto +2\nr5 = 1\n"
+            + "goto +1\nr0 = 2\nr2 = r1\nr3 = r4\nif r2 s<= r3 goto +2\nr5 = 1\ngoto +1\nr0 = 2\nr2 = r1\nr3 = r4\n"
+            + "r0 = 0\nexit",
+        "0 -1 36 8 25 2 1 -4570614756729792",
+        "r9 = *(u32 *)(r1 + 8)\nr8 = r1\nr2 = r9\nr2 <<= 33\nr2 s>>= 60\nr3 = -1\nr1 = r2\nr4 = r3\nif r2 s> "
+            + "r3 goto +2\nr5 = 1\ngoto +1\nr0 = 2\nr2 = r1\nr3 = r4\nif r2 > r3 goto +2\nr5 = 1\ngoto +1\nr0 = 2\n"
+            + "r2 = r1\nr3 = r4\nif r2 s<= r3 goto +2\nr5 = 1\ngoto +1\nr0 = 2\nr2 = r1\nr3 = r4\nr0 = 0\nexit",
+        "0 -1 54 14 26 3 1 -2165855334931703413",
+        "r9 = *(u32 *)(r1 + 8)\nr8 = r1\nr2 = r9\nr2 <<= 33\nr2 s>>= 60\nr3 = r9\nr3 &= 16\nr1 = r2\nr4 = r3\n"
+            + "if r2 s> r3 goto +2\nr5 = 1\ngoto +1\nr0 = 2\nr2 = r1\nr3 = r4\nif r2 > r3 goto +2\nr5 = 1\ngoto +1\n"
+            + "r0 = 2\nr2 = r1\nr3 = r4\nif r2 s<= r3 goto +2\nr5 = 1\ngoto +1\nr0 = 2\nr2 = r1\nr3 = r4\nr0 = 0\ne"
+            + "xit",
+        "0 -1 48 13 25 3 1 4884476568748924253",
+        "r9 = *(u32 *)(r1 + 8)\nr8 = r1\nr2 = r9\nr2 <<= 33\nr2 s>>= 60\nr3 = r2\nr1 = r2\nr4 = r3\nif r2 s> "
+            + "r3 goto +2\nr5 = 1\ngoto +1\nr0 = 2\nr2 = r1\nr3 = r4\nif r2 > r3 goto +2\nr5 = 1\ngoto +1\nr0 = 2\n"
+            + "r2 = r1\nr3 = r4\nif r2 s<= r3 goto +2\nr5 = 1\ngoto +1\nr0 = 2\nr2 = r1\nr3 = r4\nr0 = 0\nexit",
+        "0 -1 53 14 25 3 1 4047011467231684631",
+        "r9 = *(u32 *)(r1 + 8)\nr8 = r1\nr2 = r9\nr2 &= 16\nr2 |= 1\nr3 = 5\nr1 = r2\nr4 = r3\nif r2 s> r3 go"
+            + "to +2\nr5 = 1\ngoto +1\nr0 = 2\nr2 = r1\nr3 = r4\nif r2 > r3 goto +2\nr5 = 1\ngoto +1\nr0 = 2\nr2 = "
+            + "r1\nr3 = r4\nif r2 s<= r3 goto +2\nr5 = 1\ngoto +1\nr0 = 2\nr2 = r1\nr3 = r4\nr0 = 0\nexit",
+        "0 -1 50 13 26 3 1 -6965374356784585755",
+        "r9 = *(u32 *)(r1 + 8)\nr8 = r1\nr2 = r9\nr2 &= 16\nr2 |= 1\nr3 = r9\nr3 &= 15\nr1 = r2\nr4 = r3\nif "
+            + "r2 s> r3 goto +2\nr5 = 1\ngoto +1\nr0 = 2\nr2 = r1\nr3 = r4\nif r2 > r3 goto +2\nr5 = 1\ngoto +1\nr0"
+            + " = 2\nr2 = r1\nr3 = r4\nif r2 s<= r3 goto +2\nr5 = 1\ngoto +1\nr0 = 2\nr2 = r1\nr3 = r4\nr0 = 0\nexi"
+            + "t",
+        "0 -1 55 14 27 3 1 2557542023406782231",
+        "r9 = *(u32 *)(r1 + 8)\nr8 = r1\nr2 = r9\nr2 &= 16\nr2 |= 1\nr3 = r9\nr3 &= 7\nr3 += 6\nr1 = r2\nr4 ="
+            + " r3\nif r2 s> r3 goto +2\nr5 = 1\ngoto +1\nr0 = 2\nr2 = r1\nr3 = r4\nif r2 > r3 goto +2\nr5 = 1\ngot"
+            + "o +1\nr0 = 2\nr2 = r1\nr3 = r4\nif r2 s<= r3 goto +2\nr5 = 1\ngoto +1\nr0 = 2\nr2 = r1\nr3 = r4\nr0 "
+            + "= 0\nexit",
+        "0 -1 26 5 26 0 1 5661537139632856541",
+        "r9 = *(u32 *)(r1 + 8)\nr8 = r1\nr2 = r9\nr2 &= 16\nr2 |= 1\nr3 = r9\nr3 &= 7\nr3 -= 13\nr1 = r2\nr4 "
+            + "= r3\nif r2 s> r3 goto +2\nr5 = 1\ngoto +1\nr0 = 2\nr2 = r1\nr3 = r4\nif r2 > r3 goto +2\nr5 = 1\ngo"
+            + "to +1\nr0 = 2\nr2 = r1\nr3 = r4\nif r2 s<= r3 goto +2\nr5 = 1\ngoto +1\nr0 = 2\nr2 = r1\nr3 = r4\nr0"
+            + " = 0\nexit",
+        "0 -1 24 5 24 0 1 3872649615066153261",
+        "r9 = *(u32 *)(r1 + 8)\nr8 = r1\nr2 = r9\nr2 &= 16\nr2 |= 1\nr3 = -1\nr1 = r2\nr4 = r3\nif r2 s> r3 g"
+            + "oto +2\nr5 = 1\ngoto +1\nr0 = 2\nr2 = r1\nr3 = r4\nif r2 > r3 goto +2\nr5 = 1\ngoto +1\nr0 = 2\nr2 ="
+            + " r1\nr3 = r4\nif r2 s<= r3 goto +2\nr5 = 1\ngoto +1\nr0 = 2\nr2 = r1\nr3 = r4\nr0 = 0\nexit",
+        "0 -1 50 13 26 3 1 8925159650766335635",
+        "r9 = *(u32 *)(r1 + 8)\nr8 = r1\nr2 = r9\nr2 &= 16\nr2 |= 1\nr3 = r9\nr3 &= 16\nr1 = r2\nr4 = r3\nif "
+            + "r2 s> r3 goto +2\nr5 = 1\ngoto +1\nr0 = 2\nr2 = r1\nr3 = r4\nif r2 > r3 goto +2\nr5 = 1\ngoto +1\nr0"
+            + " = 2\nr2 = r1\nr3 = r4\nif r2 s<= r3 goto +2\nr5 = 1\ngoto +1\nr0 = 2\nr2 = r1\nr3 = r4\nr0 = 0\nexi"
+            + "t",
+        "0 -1 48 13 25 3 1 -2390523016179006129",
+        "r9 = *(u32 *)(r1 + 8)\nr8 = r1\nr2 = r9\nr2 &= 16\nr2 |= 1\nr3 = r2\nr1 = r2\nr4 = r3\nif r2 s> r3 g"
+            + "oto +2\nr5 = 1\ngoto +1\nr0 = 2\nr2 = r1\nr3 = r4\nif r2 > r3 goto +2\nr5 = 1\ngoto +1\nr0 = 2\nr2 ="
+            + " r1\nr3 = r4\nif r2 s<= r3 goto +2\nr5 = 1\ngoto +1\nr0 = 2\nr2 = r1\nr3 = r4\nr0 = 0\nexit",
+        "0 -1 21 6 21 0 1 2843696158487354876",
+        "r9 = *(u32 *)(r1 + 8)\nr8 = r1\nr2 = 0x8000000000000000 ll\nr3 = 5\nr1 = r2\nr4 = r3\nif r2 s> r3 go"
+            + "to +2\nr5 = 1\ngoto +1\nr0 = 2\nr2 = r1\nr3 = r4\nif r2 > r3 goto +2\nr5 = 1\ngoto +1\nr0 = 2\nr2 = "
+            + "r1\nr3 = r4\nif r2 s<= r3 goto +2\nr5 = 1\ngoto +1\nr0 = 2\nr2 = r1\nr3 = r4\nr0 = 0\nexit",
+        "0 -1 22 6 22 0 1 -6300533087025830373",
+        "r9 = *(u32 *)(r1 + 8)\nr8 = r1\nr2 = 0x8000000000000000 ll\nr3 = r9\nr3 &= 15\nr1 = r2\nr4 = r3\nif "
+            + "r2 s> r3 goto +2\nr5 = 1\ngoto +1\nr0 = 2\nr2 = r1\nr3 = r4\nif r2 > r3 goto +2\nr5 = 1\ngoto +1\nr0"
+            + " = 2\nr2 = r1\nr3 = r4\nif r2 s<= r3 goto +2\nr5 = 1\ngoto +1\nr0 = 2\nr2 = r1\nr3 = r4\nr0 = 0\nexi"
+            + "t",
+        "0 -1 23 6 23 0 1 5510602186320578146",
+        "r9 = *(u32 *)(r1 + 8)\nr8 = r1\nr2 = 0x8000000000000000 ll\nr3 = r9\nr3 &= 7\nr3 += 6\nr1 = r2\nr4 ="
+            + " r3\nif r2 s> r3 goto +2\nr5 = 1\ngoto +1\nr0 = 2\nr2 = r1\nr3 = r4\nif r2 > r3 goto +2\nr5 = 1\ngot"
+            + "o +1\nr0 = 2\nr2 = r1\nr3 = r4\nif r2 s<= r3 goto +2\nr5 = 1\ngoto +1\nr0 = 2\nr2 = r1\nr3 = r4\nr0 "
+            + "= 0\nexit",
+        "0 -1 24 5 24 0 1 -2274509881271736288",
+        "r9 = *(u32 *)(r1 + 8)\nr8 = r1\nr2 = 0x8000000000000000 ll\nr3 = r9\nr3 &= 7\nr3 -= 13\nr1 = r2\nr4 "
+            + "= r3\nif r2 s> r3 goto +2\nr5 = 1\ngoto +1\nr0 = 2\nr2 = r1\nr3 = r4\nif r2 > r3 goto +2\nr5 = 1\ngo"
+            + "to +1\nr0 = 2\nr2 = r1\nr3 = r4\nif r2 s<= r3 goto +2\nr5 = 1\ngoto +1\nr0 = 2\nr2 = r1\nr3 = r4\nr0"
+            + " = 0\nexit",
+        "0 -1 22 5 22 0 1 -3013192586520825198",
+        "r9 = *(u32 *)(r1 + 8)\nr8 = r1\nr2 = 0x8000000000000000 ll\nr3 = -1\nr1 = r2\nr4 = r3\nif r2 s> r3 g"
+            + "oto +2\nr5 = 1\ngoto +1\nr0 = 2\nr2 = r1\nr3 = r4\nif r2 > r3 goto +2\nr5 = 1\ngoto +1\nr0 = 2\nr2 ="
+            + " r1\nr3 = r4\nif r2 s<= r3 goto +2\nr5 = 1\ngoto +1\nr0 = 2\nr2 = r1\nr3 = r4\nr0 = 0\nexit",
+        "0 -1 22 6 22 0 1 -8693822016888216837",
+        "r9 = *(u32 *)(r1 + 8)\nr8 = r1\nr2 = 0x8000000000000000 ll\nr3 = r9\nr3 &= 16\nr1 = r2\nr4 = r3\nif "
+            + "r2 s> r3 goto +2\nr5 = 1\ngoto +1\nr0 = 2\nr2 = r1\nr3 = r4\nif r2 > r3 goto +2\nr5 = 1\ngoto +1\nr0"
+            + " = 2\nr2 = r1\nr3 = r4\nif r2 s<= r3 goto +2\nr5 = 1\ngoto +1\nr0 = 2\nr2 = r1\nr3 = r4\nr0 = 0\nexi"
+            + "t",
+        "0 -1 22 5 22 0 1 3715323316333159348",
+        "r9 = *(u32 *)(r1 + 8)\nr8 = r1\nr2 = 0x8000000000000000 ll\nr3 = r2\nr1 = r2\nr4 = r3\nif r2 s> r3 g"
+            + "oto +2\nr5 = 1\ngoto +1\nr0 = 2\nr2 = r1\nr3 = r4\nif r2 > r3 goto +2\nr5 = 1\ngoto +1\nr0 = 2\nr2 ="
+            + " r1\nr3 = r4\nif r2 s<= r3 goto +2\nr5 = 1\ngoto +1\nr0 = 2\nr2 = r1\nr3 = r4\nr0 = 0\nexit",
+        "0 -1 44 15 37 3 1 2238098210368223886",
+        "r9 = *(u32 *)(r1 + 8)\nr8 = r1\nr2 = r9\nr2 &= 6\nr1 = r2\nif w2 == 5 goto +2\nr5 = 1\ngoto +1\nr0 ="
+            + " 2\nr2 = r1\nif r2 > -1 goto +2\nr5 = 1\ngoto +1\nr0 = 2\nr2 = r1\nif r2 <= 0 goto +2\nr5 = 1\ngoto "
+            + "+1\nr0 = 2\nr2 = r1\nif w2 s< 8 goto +2\nr5 = 1\ngoto +1\nr0 = 2\nr2 = r1\nif r2 != -8 goto +2\nr5 ="
+            + " 1\ngoto +1\nr0 = 2\nr2 = r1\nif r2 >= 21 goto +2\nr5 = 1\ngoto +1\nr0 = 2\nr2 = r1\nif w2 s> 1 goto"
+            + " +2\nr5 = 1\ngoto +1\nr0 = 2\nr2 = r1\nif r2 s<= 16 goto +2\nr5 = 1\ngoto +1\nr0 = 2\nr2 = r1\nr0 = "
+            + "0\nexit",
+        "0 -1 58 22 37 5 1 7430887211019418551",
+        "r9 = *(u32 *)(r1 + 8)\nr8 = r1\nr2 = r9\nr2 |= 1\nr1 = r2\nif r2 < 5 goto +2\nr5 = 1\ngoto +1\nr0 = "
+            + "2\nr2 = r1\nif r2 s>= -1 goto +2\nr5 = 1\ngoto +1\nr0 = 2\nr2 = r1\nif w2 == 0 goto +2\nr5 = 1\ngoto"
+            + " +1\nr0 = 2\nr2 = r1\nif r2 > 8 goto +2\nr5 = 1\ngoto +1\nr0 = 2\nr2 = r1\nif r2 <= -8 goto +2\nr5 ="
+            + " 1\ngoto +1\nr0 = 2\nr2 = r1\nif w2 s< 21 goto +2\nr5 = 1\ngoto +1\nr0 = 2\nr2 = r1\nif r2 != 1 goto"
+            + " +2\nr5 = 1\ngoto +1\nr0 = 2\nr2 = r1\nif r2 >= 16 goto +2\nr5 = 1\ngoto +1\nr0 = 2\nr2 = r1\nr0 = 0"
+            + "\nexit",
+        "0 -1 35 12 35 0 1 -3459604615612983247",
+        "r9 = *(u32 *)(r1 + 8)\nr8 = r1\nr2 = 5\nr1 = r2\nif r2 s<= 5 goto +2\nr5 = 1\ngoto +1\nr0 = 2\nr2 = "
+            + "r1\nif w2 & -1 goto +2\nr5 = 1\ngoto +1\nr0 = 2\nr2 = r1\nif r2 < 0 goto +2\nr5 = 1\ngoto +1\nr0 = 2"
+            + "\nr2 = r1\nif r2 s>= 8 goto +2\nr5 = 1\ngoto +1\nr0 = 2\nr2 = r1\nif w2 == -8 goto +2\nr5 = 1\ngoto "
+            + "+1\nr0 = 2\nr2 = r1\nif r2 > 21 goto +2\nr5 = 1\ngoto +1\nr0 = 2\nr2 = r1\nif r2 <= 1 goto +2\nr5 = "
+            + "1\ngoto +1\nr0 = 2\nr2 = r1\nif w2 s< 16 goto +2\nr5 = 1\ngoto +1\nr0 = 2\nr2 = r1\nr0 = 0\nexit",
+        "0 -1 34 13 34 0 1 -8950709630177721690",
+        "r9 = *(u32 *)(r1 + 8)\nr8 = r1\nr2 = -5\nr1 = r2\nif w2 >= 5 goto +2\nr5 = 1\ngoto +1\nr0 = 2\nr2 = "
+            + "r1\nif r2 s> -1 goto +2\nr5 = 1\ngoto +1\nr0 = 2\nr2 = r1\nif r2 s<= 0 goto +2\nr5 = 1\ngoto +1\nr0 "
+            + "= 2\nr2 = r1\nif w2 & 8 goto +2\nr5 = 1\ngoto +1\nr0 = 2\nr2 = r1\nif r2 < -8 goto +2\nr5 = 1\ngoto "
+            + "+1\nr0 = 2\nr2 = r1\nif r2 s>= 21 goto +2\nr5 = 1\ngoto +1\nr0 = 2\nr2 = r1\nif w2 == 1 goto +2\nr5 "
+            + "= 1\ngoto +1\nr0 = 2\nr2 = r1\nif r2 > 16 goto +2\nr5 = 1\ngoto +1\nr0 = 2\nr2 = r1\nr0 = 0\nexit",
+        "0 -1 41 15 36 1 1 -7169966656355362135",
+        "r9 = *(u32 *)(r1 + 8)\nr8 = r1\nr2 = r9\nr2 &= 15\nr2 += 20\nr1 = r2\nif r2 s< 5 goto +2\nr5 = 1\ngo"
+            + "to +1\nr0 = 2\nr2 = r1\nif r2 != -1 goto +2\nr5 = 1\ngoto +1\nr0 = 2\nr2 = r1\nif w2 >= 0 goto +2\nr"
+            + "5 = 1\ngoto +1\nr0 = 2\nr2 = r1\nif r2 s> 8 goto +2\nr5 = 1\ngoto +1\nr0 = 2\nr2 = r1\nif r2 s<= -8 "
+            + "goto +2\nr5 = 1\ngoto +1\nr0 = 2\nr2 = r1\nif w2 & 21 goto +2\nr5 = 1\ngoto +1\nr0 = 2\nr2 = r1\nif "
+            + "r2 < 1 goto +2\nr5 = 1\ngoto +1\nr0 = 2\nr2 = r1\nif r2 s>= 16 goto +2\nr5 = 1\ngoto +1\nr0 = 2\nr2 "
+            + "= r1\nr0 = 0\nexit",
+        "0 -1 69 27 38 5 1 -734166848472290265",
+        "r9 = *(u32 *)(r1 + 8)\nr8 = r1\nr2 = r9\nr2 &= 15\nr2 -= 8\nr1 = r2\nif r2 > 5 goto +2\nr5 = 1\ngoto"
+            + " +1\nr0 = 2\nr2 = r1\nif w2 <= -1 goto +2\nr5 = 1\ngoto +1\nr0 = 2\nr2 = r1\nif r2 s< 0 goto +2\nr5 "
+            + "= 1\ngoto +1\nr0 = 2\nr2 = r1\nif r2 != 8 goto +2\nr5 = 1\ngoto +1\nr0 = 2\nr2 = r1\nif w2 >= -8 got"
+            + "o +2\nr5 = 1\ngoto +1\nr0 = 2\nr2 = r1\nif r2 s> 21 goto +2\nr5 = 1\ngoto +1\nr0 = 2\nr2 = r1\nif r2"
+            + " s<= 1 goto +2\nr5 = 1\ngoto +1\nr0 = 2\nr2 = r1\nif w2 & 16 goto +2\nr5 = 1\ngoto +1\nr0 = 2\nr2 = "
+            + "r1\nr0 = 0\nexit",
+        "0 -1 104 37 39 8 1 -4684263940901401118",
+        "r9 = *(u32 *)(r1 + 8)\nr8 = r1\ncall 5\nr2 = r0\nr1 = r2\nif w2 s>= 5 goto +2\nr5 = 1\ngoto +1\nr0 ="
+            + " 2\nr2 = r1\nif r2 == -1 goto +2\nr5 = 1\ngoto +1\nr0 = 2\nr2 = r1\nif r2 > 0 goto +2\nr5 = 1\ngoto "
+            + "+1\nr0 = 2\nr2 = r1\nif w2 <= 8 goto +2\nr5 = 1\ngoto +1\nr0 = 2\nr2 = r1\nif r2 s< -8 goto +2\nr5 ="
+            + " 1\ngoto +1\nr0 = 2\nr2 = r1\nif r2 != 21 goto +2\nr5 = 1\ngoto +1\nr0 = 2\nr2 = r1\nif w2 >= 1 goto"
+            + " +2\nr5 = 1\ngoto +1\nr0 = 2\nr2 = r1\nif r2 s> 16 goto +2\nr5 = 1\ngoto +1\nr0 = 2\nr2 = r1\nr0 = 0"
+            + "\nexit",
+        "0 -1 69 24 39 6 1 -9199844467639804996",
+        "r9 = *(u32 *)(r1 + 8)\nr8 = r1\nr2 = r9\nr2 <<= 33\nr2 s>>= 60\nr1 = r2\nif r2 & 5 goto +2\nr5 = 1\n"
+            + "goto +1\nr0 = 2\nr2 = r1\nif r2 < -1 goto +2\nr5 = 1\ngoto +1\nr0 = 2\nr2 = r1\nif w2 s>= 0 goto +2\n"
+            + "r5 = 1\ngoto +1\nr0 = 2\nr2 = r1\nif r2 == 8 goto +2\nr5 = 1\ngoto +1\nr0 = 2\nr2 = r1\nif r2 > -8 g"
+            + "oto +2\nr5 = 1\ngoto +1\nr0 = 2\nr2 = r1\nif w2 <= 21 goto +2\nr5 = 1\ngoto +1\nr0 = 2\nr2 = r1\nif "
+            + "r2 s< 1 goto +2\nr5 = 1\ngoto +1\nr0 = 2\nr2 = r1\nif r2 != 16 goto +2\nr5 = 1\ngoto +1\nr0 = 2\nr2 "
+            + "= r1\nr0 = 0\nexit",
+        "0 -1 66 21 40 6 1 847402153540299521",
+        "r9 = *(u32 *)(r1 + 8)\nr8 = r1\nr2 = r9\nr2 &= 16\nr2 |= 1\nr1 = r2\nif r2 s> 5 goto +2\nr5 = 1\ngot"
+            + "o +1\nr0 = 2\nr2 = r1\nif w2 s<= -1 goto +2\nr5 = 1\ngoto +1\nr0 = 2\nr2 = r1\nif r2 & 0 goto +2\nr5"
+            + " = 1\ngoto +1\nr0 = 2\nr2 = r1\nif r2 < 8 goto +2\nr5 = 1\ngoto +1\nr0 = 2\nr2 = r1\nif w2 s>= -8 go"
+            + "to +2\nr5 = 1\ngoto +1\nr0 = 2\nr2 = r1\nif r2 == 21 goto +2\nr5 = 1\ngoto +1\nr0 = 2\nr2 = r1\nif r"
+            + "2 > 1 goto +2\nr5 = 1\ngoto +1\nr0 = 2\nr2 = r1\nif w2 <= 16 goto +2\nr5 = 1\ngoto +1\nr0 = 2\nr2 = "
+            + "r1\nr0 = 0\nexit",
+        "0 -1 35 12 35 0 1 -5358829861947649386",
+        "r9 = *(u32 *)(r1 + 8)\nr8 = r1\nr2 = 0x8000000000000000 ll\nr1 = r2\nif w2 != 5 goto +2\nr5 = 1\ngot"
+            + "o +1\nr0 = 2\nr2 = r1\nif r2 >= -1 goto +2\nr5 = 1\ngoto +1\nr0 = 2\nr2 = r1\nif r2 s> 0 goto +2\nr5"
+            + " = 1\ngoto +1\nr0 = 2\nr2 = r1\nif w2 s<= 8 goto +2\nr5 = 1\ngoto +1\nr0 = 2\nr2 = r1\nif r2 & -8 go"
+            + "to +2\nr5 = 1\ngoto +1\nr0 = 2\nr2 = r1\nif r2 < 21 goto +2\nr5 = 1\ngoto +1\nr0 = 2\nr2 = r1\nif w2"
+            + " s>= 1 goto +2\nr5 = 1\ngoto +1\nr0 = 2\nr2 = r1\nif r2 == 16 goto +2\nr5 = 1\ngoto +1\nr0 = 2\nr2 ="
+            + " r1\nr0 = 0\nexit",
+        "0 -1 12 2 10 1 1 613633381360384614",
+        "r9 = *(u32 *)(r1 + 8)\nr3 = r9\nr3 &= 16\nr3 |= 1\nif r3 > 1 goto +2\nr0 = 0\nexit\nr4 = r9\nr4 &= 1"
+            + "6\nif r4 > r3 goto +2\nr0 = 0\nexit\nr0 = 1\nr0 = 2\nexit",
+        "0 -1 13 3 11 1 1 -713814224582578135",
+        "r9 = *(u32 *)(r1 + 8)\nr3 = r9\nr3 &= 16\nr3 |= 1\nif r3 > 1 goto +2\nr0 = 0\nexit\nr4 = r9\nr4 &= 1"
+            + "6\nif r3 >= r4 goto +2\nr0 = 0\nexit\nr0 = 1\nr0 = 2\nexit",
+        "0 -1 6 1 6 0 1 222708624863408116",
+        "r9 = *(u32 *)(r1 + 8)\nr3 = r9\nr3 &= 8\nif r3 == 4 goto +2\nr0 = 0\nexit\nr0 = 1\nexit",
+        "0 -1 9 2 7 1 1 821133834133776970",
+        "r9 = *(u32 *)(r1 + 8)\nr3 = r9\nr3 &= 9\nif r3 > 1 goto +2\nr0 = 0\nexit\nif r3 < 8 goto +2\nr0 = 0\n"
+            + "exit\nr0 = 1\nr0 = 2\nexit",
+        "0 -1 9 2 7 1 1 9044083001643329402",
+        "r9 = *(u32 *)(r1 + 8)\nr3 = r9\nr3 &= 20\nif r3 > 4 goto +2\nr0 = 0\nexit\nif r3 < 16 goto +2\nr0 = "
+            + "0\nexit\nr0 = 1\nr0 = 2\nexit",
+        "0 -1 10 2 8 1 1 1468320208267137696",
+        "r9 = *(u32 *)(r1 + 8)\nr3 = r9\nr3 &= 17\nr4 = r9\nr4 &= 6\nif r3 == r4 goto +2\nr0 = 0\nexit\nr0 = "
+            + "1\nexit",
+        "0 -1 7 1 7 0 1 -3169132285007361736",
+        "r9 = *(u32 *)(r1 + 8)\nr2 = r9\nr2 <<= 32\nr3 = r2\nr2 *= r3\nr0 = 0\nexit",
+        "0 -1 5 1 5 0 1 -2412420743574520481",
+        "r9 = *(u32 *)(r1 + 8)\nr2 = r9\nr2 *= r9\nr0 = 0\nexit",
+        "0 -1 5 1 5 0 1 -3808136571859026205",
+        "r9 = *(u32 *)(r1 + 8)\nr2 = r9\nr2 *= -1\nr0 = 0\nexit",
+        "0 -1 6 1 6 0 1 -6124401903022838392",
+        "r9 = *(u32 *)(r1 + 8)\nr2 = r9\nr2 &= 12\nr2 *= 10\nr0 = 0\nexit",
+        "0 -1 8 1 8 0 1 7435850038791527690",
+        "r9 = *(u32 *)(r1 + 8)\nr2 = r9\nr3 = 0\nr2 /= r3\nr4 = r9\nr4 %= r3\nr0 = 0\nexit",
+        "0 -1 7 1 7 0 1 2018226313493623013",
+        "r9 = *(u32 *)(r1 + 8)\nr2 = 7\nr2 %= r9\nr3 = 7\nr3 /= r9\nr0 = 0\nexit",
+        "0 -1 10 1 10 0 1 6078432601517880409",
+        "r9 = *(u32 *)(r1 + 8)\ncall 5\nr2 = r0\nr2 s>>= 8\nr3 = r0\nr3 s>>= r9\nr4 = r2\nr4 s>>= r9\nr0 = 0\n"
+            + "exit",
+        "0 -1 10 1 10 0 1 8161490339918541913",
+        "r9 = *(u32 *)(r1 + 8)\ncall 5\nr2 = r0\nr2 -= r9\nr3 = r9\nr3 -= r0\nr4 = r9\nr4 += r0\nr0 = 0\nexit",
+        "0 -1 8 2 8 1 1 8422488954531657043",
+        "r9 = *(u32 *)(r1 + 8)\ncall 5\nr2 = r0\nif r2 s> 100 goto +2\nr2 += 7\nr2 -= 300\nr0 = 0\nexit",
+        "0 -1 10 1 10 0 1 -4400196515820178343",
+        "r9 = *(u32 *)(r1 + 8)\ncall 5\nr2 = r0\nw2 += 1\nw3 = w0\nw3 -= 5\nw4 = w0\nw4 *= w9\nr0 = 0\nexit",
+        "0 -1 10 1 10 0 1 -3943794646924558809",
+        "r9 = *(u32 *)(r1 + 8)\ncall 5\nr2 = r0\nw2 s/= 3\nw3 = -7\nw3 s%= 2\nw4 = -7\nw4 s>>= 1\nr0 = 0\nexi"
+            + "t",
+        "0 -1 7 1 7 0 1 -1267269698700819263",
+        "r9 = *(u32 *)(r1 + 8)\ncall 5\nr2 = (s8) r0\nr3 = (s32) r9\nw4 = (s16) w0\nr0 = 0\nexit",
+        "0 -1 9 1 9 0 1 -1262317878736520134",
+        "r9 = *(u32 *)(r1 + 8)\nr2 = 0x123456789 ll\nw2 <<= 4\nr3 = 0x8000000180000001 ll\nr4 = r3\nr3 s>>= 4"
+            + "\nr4 >>= 4\nr0 = 0\nexit",
+        "0 -1 10 1 10 0 1 -6975498609179462567",
+        "r9 = *(u32 *)(r1 + 8)\ncall 5\nr2 = r0\nr2 |= r9\nr3 = r0\nr3 ^= r9\nr4 = r0\nr4 &= r9\nr0 = 0\nexit",
+        "0 -1 10 1 10 0 1 -5618963246582702838",
+        "r9 = *(u32 *)(r1 + 8)\ncall 5\nr2 = r0\nr2 |= 0xF0\nr2 ^= 0xFF\nr3 = r2\nr3 &= 0xF0\nr3 |= 1\nr0 = 0"
+            + "\nexit",
+        "0 -1 9 1 9 0 1 -4536670434442460297",
+        "r9 = *(u32 *)(r1 + 8)\nr2 = r9\nr2 = be16 r2\nr3 = 0x1234567 \nr3 = be32 r3\nr4 = r9\nr4 = le64 r4\n"
+            + "r0 = 0\nexit",
+        "0 -1 9 1 9 0 1 8744479486997511451",
+        "r9 = *(u32 *)(r1 + 8)\nr2 = r9\nr2 = - r2\nw3 = w9\nw3 = - w3\nr4 = -9\nr4 = - r4\nr0 = 0\nexit",
+        "0 -1 9 1 9 0 1 4978516677273044695",
+        "r9 = *(u32 *)(r1 + 8)\nr2 = r9\nr2 <<= 31\nr3 = r9\nr3 <<= 32\nr4 = r9\nr4 <<= 33\nr0 = 0\nexit",
+        "0 -1 9 1 9 0 1 8033956053088611613",
+        "r9 = *(u32 *)(r1 + 8)\nr2 = r9\nr2 -= 5\nr3 = 5\nr3 -= r9\nr4 = r9\nr4 += -5\nr0 = 0\nexit",
+        "0 -1 14 4 10 2 1 -9037225605004441358",
+        "r9 = *(u32 *)(r1 + 8)\ncall 5\nr2 = r0\nif r2 s< -5 goto +4\nif r2 s> 9 goto +3\nr3 = r2\nr3 += 5\nr"
+            + "2 -= 10\nr0 = 0\nexit",
+    };
+
     public static void main(String[] args) {
-        for (int i = 0; i < CASES.length; i++) {
-            check("case " + i, CASES[i].split(" "));
+        for (int i = 0; i < DICE.length; i++) {
+            String[] parts = DICE[i].split(" ");
+            House house = withMaps();
+            String hex = parts[8];
+            long[] words = new long[hex.length() / 16];
+            for (int k = 0; k < words.length; k++) {
+                words[k] = Long.parseUnsignedLong(hex.substring(16 * k, 16 * k + 16), 16);
+            }
+            House.due("load " + i, house.tapeWords(words).house.load(0), words.length);
+            check("dice " + i, house.house, parts);
+        }
+        for (int i = 0; i < TEXTS.length; i += 2) {
+            House house = withMaps();
+            House.due("assemble " + TEXTS[i + 1], house.assemble(0, TEXTS[i + 1]) > 0, true);
+            check("<" + TEXTS[i + 1] + ">", house.house, TEXTS[i].split(" "));
         }
         House.end();
     }
 
-    private static void check(String name, String[] parts) {
+    private static House withMaps() {
         House house = new House();
-        FilterHouse x = house.house;
-        x.map(0, 0, 4, 8, 4);
-        x.map(1, 1, 6, 16, 2);
-        x.map(2, 2, 0, 0, 3);
-        x.map(3, 3, 0, 0, 2);
-        x.map(4, 0, 4, 64, 16);
-        String hex = parts[8];
-        long[] words = new long[hex.length() / 16];
-        for (int i = 0; i < words.length; i++) {
-            words[i] = Long.parseUnsignedLong(hex.substring(16 * i, 16 * i + 16), 16);
-        }
-        House.due(name + " load", house.tapeWords(words).house.load(0), words.length);
-        House.due(name + " judge", x.judge(0), Long.parseLong(parts[0]));
+        house.house.map(0, 0, 4, 8, 4);
+        house.house.map(1, 1, 6, 16, 2);
+        house.house.map(2, 2, 0, 0, 3);
+        house.house.map(3, 3, 0, 0, 2);
+        house.house.map(4, 0, 4, 64, 16);
+        return house;
+    }
+
+    private static void check(String name, FilterHouse x, String[] want) {
+        House.due("judge of " + name, x.judge(0), Long.parseLong(want[0]));
         for (int what = 0; what < 6; what++) {
-            House.due(name + " told " + what, x.told(what), Long.parseLong(parts[1 + what]));
+            House.due("told " + what + " of " + name, x.told(what), Long.parseLong(want[1 + what]));
         }
         long sum = 0;
-        for (int i = 0; i < words.length; i++) {
+        for (int i = 0; i < x.words(0); i++) {
             for (int k = 0; k < 100; k++) {
                 sum = sum * 31 + x.known(i, k / 10, k % 10);
             }
         }
-        House.due(name + " known", sum, Long.parseLong(parts[7]));
+        House.due("known of " + name, sum, Long.parseLong(want[7]));
     }
 }

@@ -506,7 +506,16 @@ public final class RunTest {
         House.due("all 0", x.result(), 0);
         x.run(1, 1);
         House.due("all 0 again", x.result(), 0);
+        for (int helper = 132; helper <= 133; helper++) {
+            x.next(3);
+            House.due("judge", house.judge(1, "r1 = map 3\nr2 = 8\nr3 = 0\ncall 131\nif r0 == 0 goto E\nr1 = r0\nr2 = 5\ncall " + helper
+                    + "\nr0 += 7\nE: exit"), 0);
+            x.run(1, helper - 132);
+            House.due("answer of " + helper, x.result(), 7);
+        }
         House.due("size", x.size(3), 1);
+        House.due("next", x.next(3), 8);
+        House.due("next", x.next(3), -1);
     }
 
     private static void refused() {

@@ -193,6 +193,18 @@ public final class TextTest {
         wrong("w1 = le16 w1", 5);
         wrong("w1 = map 1", 5);
         wrong("w1 = 5 ll", 7);
+        wrong("w0 = 5 ll", 7);
+        wrong("w0 = map 1", 5);
+        wrong("w0 = be16 w0", 5);
+        wrong("w0 = *(u8 *)(r1 + 0)", 5);
+        wrong("r1 = *(u32 *)(w0 + 0)", 14);
+        wrong("*(u8 *)(r1 + 0) = w0", 18);
+        wrong("r0 = w0", 5);
+        wrong("w0 = r0", 5);
+        wrong("if w0 > r0 goto +0", 8);
+        wrong("r1 = - 0x8000000000000001 ll", 7);
+        wrong("r", 0);
+        wrong("r1 = s", 5);
         wrong("w1 = *(u32 *)(r1 + 0)", 5);
         wrong("r1 = *(u32 *)(w1 + 0)", 14);
         wrong("r1 = *(u31 *)(r1 + 0)", 7);
