@@ -512,9 +512,8 @@ public final class RunTest {
                     + "\nr0 += 7\nE: exit"), 0);
             x.run(1, helper - 132);
             House.due("answer of " + helper, x.result(), 7);
+            House.due("size behind " + helper, x.size(3), 133 - helper);
         }
-        House.due("size", x.size(3), 1);
-        House.due("next", x.next(3), 8);
         House.due("next", x.next(3), -1);
     }
 
