@@ -11,6 +11,8 @@ public final class NumTest {
 
     private static final String SOME = "r2 = *(u32 *)(r1 + 8)\n";
 
+    private static final long F = 0xFFFFFFFFL;
+
     /** What is known of r0 behind a program that ends with these lines: V M U1 U2 S1 S2. */
     private static void known(String text, long... want) {
         House house = new House();
@@ -31,10 +33,18 @@ public final class NumTest {
     }
 
     private static void samples() {
-        long f = 0xFFFFFFFFL;
-        known(SOME + "r0 = r2", 0, f, 0, f, 0, f);
+        known(SOME + "r0 = r2", 0, F, 0, F, 0, F);
         number("r0 = -5", -5);
         number("w0 = -5", 0xFFFFFFFBL);
+        known(SOME + "r2 &= 12\nw0 = w2", 0, 12, 0, 12, 0, 12);
+        known(SOME + "r2 &= 12\nr2 |= 3\nw0 = w2", 3, 12, 3, 15, 3, 15);
+        known(SOME + "r0 = r2\nr0 <<= 1\nr0 *= 3", 0, -2, 0, -2, Long.MIN_VALUE, Long.MAX_VALUE - 1);
+        known(SOME + "r0 = r2\nr3 = r2\nr0 *= r3", 0, -1, 0, F * F, Long.MIN_VALUE, Long.MAX_VALUE);
+        number(SOME + "r0 = r2\nr0 <<= 32\nr3 = r0\nr0 *= r3", 0);
+        known(SOME + "r0 = (s8) r2\nr0 += 1", 0, -1, 0, -1, -127, 128);
+        known(SOME + "r0 = (s8) r2\nr0 -= 1", 0, -1, 0, -1, -129, 126);
+        known(SOME + "r0 = (s8) r2\nr3 = 0x7FFFFFFFFFFFFFFF ll\nr0 += r3", 0, -1, 0, -1, Long.MIN_VALUE, Long.MAX_VALUE);
+        known(SOME + "r0 = (s8) r2\nr3 = 0x7FFFFFFFFFFFFFFF ll\nr0 -= r3", 0, -1, 0, -1, Long.MIN_VALUE, Long.MAX_VALUE);
         number("r0 = 7\nr0 += -9", -2);
         number("w0 = 7\nw0 -= 9", 0xFFFFFFFEL);
         known(SOME + "r0 = r2\nr0 &= 7\nr0 += 3", 0, 15, 3, 10, 3, 10);
@@ -45,10 +55,10 @@ public final class NumTest {
         known(SOME + "r0 = r2\nr0 &= 6\nr0 *= 12", 0, 0x78, 0, 72, 0, 72);
         known(SOME + "r0 = r2\nr0 *= 0", 0, 0, 0, 0, 0, 0);
         known(SOME + "r0 = r2\nr0 /= 1000", 0, 0x7FFFFF, 0, 4294967, 0, 4294967);
-        known(SOME + "r0 = r2\nr3 = r2\nr0 /= r3", 0, f, 0, f, 0, f);
+        known(SOME + "r0 = r2\nr3 = r2\nr0 /= r3", 0, F, 0, F, 0, F);
         known(SOME + "r0 = r2\nr0 %= 10", 0, 15, 0, 9, 0, 9);
         known(SOME + "r0 = r2\nr0 &= 5\nr0 %= 10", 0, 7, 0, 5, 0, 5);
-        known(SOME + "r0 = r2\nr0 |= 256", 256, f & ~256, 256, f, 256, f);
+        known(SOME + "r0 = r2\nr0 |= 256", 256, F & ~256, 256, F, 256, F);
         known(SOME + "r0 = r2\nr0 &= 255\nr0 ^= 3", 0, 255, 0, 255, 0, 255);
         known(SOME + "r0 = r2\nr0 <<= 33", 0, -1L << 33, 0, -1L << 33, Long.MIN_VALUE, Long.MAX_VALUE & -1L << 33);
         known(SOME + "r0 = r2\nr0 >>= 8", 0, 0xFFFFFF, 0, 0xFFFFFF, 0, 0xFFFFFF);
@@ -57,10 +67,10 @@ public final class NumTest {
         known(SOME + "r0 = 9\nr0 s>>= r2", 0, 15, 0, 9, 0, 9);
         known(SOME + "r0 = 9\nr0 >>= r2", 0, 15, 0, 9, 0, 9);
         any(SOME + "r0 = 9\nr0 <<= r2");
-        known(SOME + "w0 = 9\nw0 <<= w2", 0, f, 0, f, 0, f);
+        known(SOME + "w0 = 9\nw0 <<= w2", 0, F, 0, F, 0, F);
         any(SOME + "r0 = r2\nr0 s/= 3");
-        known(SOME + "r0 = r2\nw0 s/= 3", 0, f, 0, f, 0, f);
-        known(SOME + "r0 = r2\nw0 s>>= 3", 0, f, 0, f, 0, f);
+        known(SOME + "r0 = r2\nw0 s/= 3", 0, F, 0, F, 0, F);
+        known(SOME + "r0 = r2\nw0 s>>= 3", 0, F, 0, F, 0, F);
         number("r0 = -7\nr0 s/= 2", -3);
         number("r0 = -7\nr0 s%= 2", -1);
         number("w0 = -7\nw0 s/= 2", 0xFFFFFFFDL);
@@ -72,7 +82,7 @@ public final class NumTest {
         number("r0 = 5\nr3 = 0\nr0 s%= r3", 5);
         number("r0 = -9223372036854775808 ll\nr0 s/= -1", Long.MIN_VALUE);
         known(SOME + "r0 = (s8) r2", 0, -1, 0, -1, -128, 127);
-        known(SOME + "w0 = (s8) w2", 0, f, 0, f, 0, f);
+        known(SOME + "w0 = (s8) w2", 0, F, 0, F, 0, F);
         number("r3 = 200\nr0 = (s8) r3", -56);
         number("r3 = 200\nw0 = (s8) w3", 0xFFFFFFC8L);
         known(SOME + "r0 = r2\nr0 = be16 r0", 0, 0xFFFF, 0, 0xFFFF, 0, 0xFFFF);
@@ -81,41 +91,47 @@ public final class NumTest {
         number("r0 = 66051\nr0 = le16 r0", 0x0203);
         number("r0 = 1\nr0 = bswap64 r0", 1L << 56);
         known("call 5\nr0 >>= 1", 0, Long.MAX_VALUE, 0, Long.MAX_VALUE, 0, Long.MAX_VALUE);
-        known("call 5\nw0 = w0", 0, f, 0, f, 0, f);
-        known("call 7", 0, f, 0, f, 0, f);
+        known("call 5\nw0 = w0", 0, F, 0, F, 0, F);
+        known("call 7", 0, F, 0, F, 0, F);
     }
 
     private static void jumps() {
-        long f = 0xFFFFFFFFL;
         String end = " goto +2\nr0 = 1\nexit\nr0 = r2";
         String not = " goto +1\ngoto +2\nr0 = 1\nexit\nr0 = r2";
-        known(SOME + "if r2 > 10" + end, 0, f, 11, f, 11, f);
+        known(SOME + "if r2 > 10" + end, 0, F, 11, F, 11, F);
         known(SOME + "if r2 > 10" + not, 0, 15, 0, 10, 0, 10);
-        known(SOME + "if r2 >= 10" + end, 0, f, 10, f, 10, f);
+        known(SOME + "if r2 >= 10" + end, 0, F, 10, F, 10, F);
         known(SOME + "if r2 < 10" + end, 0, 15, 0, 9, 0, 9);
         known(SOME + "if r2 <= 10" + end, 0, 15, 0, 10, 0, 10);
-        known(SOME + "if r2 s> 10" + end, 0, f, 11, f, 11, f);
+        known(SOME + "if r2 s> 10" + end, 0, F, 11, F, 11, F);
         known(SOME + "if r2 s< 10" + end, 0, 15, 0, 9, 0, 9);
         known(SOME + "if w2 < 10" + end, 0, 15, 0, 9, 0, 9);
-        known(SOME + "if w2 s< 10" + end, 0, f, 0, f, 0, f);
-        known(SOME + "if w2 > -2" + end, f, 0, f, f, f, f);
+        known(SOME + "if w2 s< 10" + end, 0, F, 0, F, 0, F);
+        known(SOME + "if w2 > -2" + end, F, 0, F, F, F, F);
         known("call 5\nr2 = r0\nif w2 < 10" + end, 0, -1, 0, -1, Long.MIN_VALUE, Long.MAX_VALUE);
         known(SOME + "if r2 == 10" + end, 10, 0, 10, 10, 10, 10);
         known(SOME + "if r2 != 10" + not, 10, 0, 10, 10, 10, 10);
-        known(SOME + "if r2 != 0" + end, 0, f, 1, f, 1, f);
-        known(SOME + "if r2 & 8" + end, 8, f & ~8, 8, f, 8, f);
-        known(SOME + "if r2 & 12" + end, 0, f, 0, f, 0, f);
-        known(SOME + "if r2 & 12" + not, 0, f & ~12, 0, f & ~12, 0, f & ~12);
+        known(SOME + "if r2 != 0" + end, 0, F, 1, F, 1, F);
+        known(SOME + "r2 &= 7\nif r2 != 7" + end, 0, 7, 0, 6, 0, 6);
+        known(SOME + "r2 = (s8) r2\nif r2 != 127" + end, 0, -1, 0, -1, -128, 126);
+        known(SOME + "r2 = (s8) r2\nif r2 != -128" + end, 0, -1, 0, -1, -127, 127);
+        known(SOME + "if r2 & 8" + end, 8, F & ~8, 8, F, 8, F);
+        known(SOME + "if r2 & 12" + end, 0, F, 0, F, 0, F);
+        known(SOME + "if r2 & 12" + not, 0, F & ~12, 0, F & ~12, 0, F & ~12);
         known("call 5\nr2 = r0\nif r2 s> 5" + end, 0, Long.MAX_VALUE, 6, Long.MAX_VALUE, 6, Long.MAX_VALUE);
         known("call 5\nr2 = r0\nif r2 s< 0" + end, Long.MIN_VALUE, Long.MAX_VALUE, Long.MIN_VALUE, -1, Long.MIN_VALUE, -1);
         known(SOME + "r3 = r2\nr3 &= 7\nif r2 < r3" + end, 0, 7, 0, 6, 0, 6);
         known(SOME + "r3 = r2\nr2 &= 7\nif r3 < r2 goto +2\nr0 = 1\nexit\nr0 = r3", 0, 7, 0, 6, 0, 6);
-        known(SOME + "if r2 > r2 goto +0\nr0 = r2", 0, f, 0, f, 0, f);
+        known(SOME + "if r2 > r2 goto +0\nr0 = r2", 0, F, 0, F, 0, F);
         // decided: just one way is gone
         int[] gone = {gone("r2 = 5\nif r2 > 4"), gone("r2 = 5\nif r2 > 5"), gone(SOME + "r2 &= 3\nif r2 > 3"), gone(SOME + "r2 &= 3\nif r2 >= 3"),
             gone(SOME + "r2 |= 1\nif r2 == 6"), gone(SOME + "r2 &= 6\nif r2 & 1"), gone(SOME + "r2 |= 1\nif r2 & 1"),
-            gone(SOME + "if r2 s>= 0"), gone("r2 = -1\nif w2 s< 0"), gone(SOME + "if w2 s>= -2147483648"), gone("call 5\nr2 = r0\nif w2 <= -1")};
-        int[] want = {4, 4, 5, 7, 5, 5, 5, 4, 4, 6, 5};
+            gone(SOME + "if r2 s>= 0"), gone("r2 = -1\nif w2 s< 0"), gone(SOME + "if w2 s>= -2147483648"), gone("call 5\nr2 = r0\nif w2 <= -1"),
+            gone("call 5\nr2 = r0\nr3 = 5\nif r2 <= 9 goto +1\nif r2 == r3"), gone("call 5\nr2 = r0\nr3 = 5\nif r2 <= 9 goto +1\nif r3 == r2"),
+            gone("call 5\nr2 = r0\nr3 = 5\nif r2 s> 4 goto +2\nif r2 s< -3 goto +1\nif r2 == r3"),
+            gone("call 5\nr2 = r0\nr3 = 5\nif r2 s> 4 goto +2\nif r2 s< -3 goto +1\nif r3 == r2"),
+            gone(SOME + "r2 &= 47\nif r2 <= 15 goto +1\nif r2 < 32")};
+        int[] want = {6, 4, 5, 9, 5, 5, 7, 6, 6, 8, 7, 9, 9, 12, 12, 8};
         for (int i = 0; i < gone.length; i++) {
             House.due("gone " + i, gone[i], want[i]);
         }
@@ -123,7 +139,7 @@ public final class NumTest {
 
     private static int gone(String text) {
         House house = new House();
-        house.judge(0, text + " goto +2\nr0 = 0\nexit\nr0 = 0\nexit");
+        house.judge(0, text + " goto +2\nr0 = 0\nexit\nr0 = 0\nr0 = 0\nr0 = 0\nexit");
         return house.house.told(1);
     }
 

@@ -21,6 +21,7 @@ public final class RunTest {
         tails();
         packetHelpers();
         recordHelpers();
+        otherMaps();
         refused();
         House.end();
     }
@@ -437,6 +438,9 @@ public final class RunTest {
         String read = "*(u64 *)(r10 - 8) = -1\nr2 = %s\nr3 = r10\nr3 += -8\nr4 = %d\ncall 26\nr6 = r0\nr0 = *(u64 *)(r10 - 8)\n";
         House.due("bytes", house.run(0, read.formatted("1", 3) + "exit"), 0xFFFFFFFFFF040302L);
         House.due("answer", house.run(0, read.formatted("1", 3) + "r0 = r6\nexit"), 0);
+        House.due("from the begin", house.run(0, read.formatted("0", 2) + "exit"), 0xFFFFFFFFFFFF0201L);
+        House.due("all of it", house.run(0, read.formatted("0", 6) + "exit"), 0xFFFF060504030201L);
+        House.due("a byte too many", house.run(0, read.formatted("0", 7) + "exit"), 0xFF00000000000000L);
         House.due("to the end", house.run(0, read.formatted("4", 2) + "exit"), 0xFFFFFFFFFFFF0605L);
         House.due("beyond", house.run(0, read.formatted("5", 2) + "exit"), 0xFFFFFFFFFFFF0000L);
         House.due("answer", house.run(0, read.formatted("5", 2) + "r0 = r6\nexit"), -14);
@@ -515,6 +519,32 @@ public final class RunTest {
             House.due("size behind " + helper, x.size(3), 133 - helper);
         }
         House.due("next", x.next(3), -1);
+    }
+
+    /** Maps of these kinds that are the first and the last one. */
+    private static void otherMaps() {
+        for (int m = 0; m < 8; m += 7) {
+            House house = new House();
+            FilterHouse x = house.house;
+            x.map(m, 3, 0, 0, 16);
+            x.map(7 - m, 2, 0, 0, 16);
+            String one = "r1 = map " + m + "\nr2 = 1\nr3 = 0\ncall 131\nif r0 == 0 goto E\n*(u8 *)(r0 + 0) = 200\nr1 = r0\nr2 = 0\ncall 132\nr0 = 3\nE: exit";
+            House.due("judge", house.judge(0, one), 0);
+            for (int i = 0; i < 17; i++) {
+                x.run(0, i % 2);
+                House.due("record " + i, x.result(), i < 16 ? 3 : 0);
+            }
+            for (int i = 0; i < 16; i++) {
+                House.due("next " + i, x.next(m), 1);
+                House.due("its byte", x.out(0), 200);
+            }
+            House.due("none", x.next(m), -1);
+            x.link(7 - m, 15, 1);
+            House.due("judge", house.judge(1, "r0 = 77\nexit"), 0);
+            String tail = "r2 = map " + (7 - m) + "\nr3 = %d\ncall 12\nexit";
+            House.due("the last index", house.run(2, tail.formatted(15)), 77);
+            House.due("behind it", house.run(2, tail.formatted(16)), -1);
+        }
     }
 
     private static void refused() {

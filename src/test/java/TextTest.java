@@ -143,6 +143,7 @@ public final class TextTest {
         House.due("at the end", HOUSE.printed(0), "goto +0\n");
         House.due("r11 is a name", HOUSE.assemble(0, "r11: goto r11\nr01: w11: exit"), -10 - 19);
         House.due("r11 is a name", HOUSE.assemble(0, "r11: goto r11\nr01: exit\n_9: exit"), 3);
+        House.due("all letters", HOUSE.assemble(0, "azAZ_09: goto azAZ_09\ngoto _\n_: exit"), 3);
         House.due("told twice", HOUSE.assemble(0, "a: exit\na: exit"), -10 - 8);
         House.due("no register", HOUSE.assemble(0, "r1: exit"), -10 - 2);
         House.due("no register", HOUSE.assemble(0, "goto w10"), -10 - 5);
@@ -333,7 +334,9 @@ public final class TextTest {
             word(0x05, 1, 0, 1, 0), word(0x06, 0, 0, 1, 0), word(0x0D, 1, 1, 0, 0), word(0x85, 0, 0, 0, -1), word(0x85, 0, 2, 0, 1),
             word(0x95, 1, 0, 0, 0), word(0x8D, 0, 0, 0, 0), word(0x15, 11, 0, 0, 0), word(0x1D, 1, 1, 0, 1), word(0xE5, 1, 0, 0, 0),
             word(0x61, 1, 1, 0, 1), word(0x99, 1, 1, 0, 0), word(0x61, 10, 1, 0, 0), word(0x62, 1, 1, 0, 0), word(0x63, 1, 1, 0, 1),
-            word(0xC3, 1, 1, 0, 2), word(0xC3, 1, 1, 0, 0xE0), word(0xCB, 1, 1, 0, 0), word(0xDB, 1, 10, 0, 1), word(0xA1, 1, 1, 0, 0)};
+            word(0xC3, 1, 1, 0, 2), word(0xC3, 1, 1, 0, 0xE0), word(0xCB, 1, 1, 0, 0), word(0xDB, 1, 10, 0, 1), word(0xA1, 1, 1, 0, 0),
+            word(0x63, 11, 1, 0, 0), word(0x63, 1, 11, 0, 0), word(0xC3, 11, 1, 0, 0), word(0xC3, 1, 11, 0, 0), word(0x61, 1, 11, 0, 0),
+            word(0x62, 11, 0, 0, 0), word(0x1D, 1, 11, 0, 0), word(0x0F, 10, 1, 0, 0), word(0x0F, 1, 1, 1, 0), word(0x15, 1, 1, 0, 0)};
         for (long w : none) {
             HOUSE.tapeWords(w);
             HOUSE.house.load(1);
