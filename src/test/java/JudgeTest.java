@@ -213,6 +213,14 @@ public final class JudgeTest {
         behind("", "*(u64 *)(r10 - 7) = 1", RANGE);
         behind("", "*(u64 *)(r10 - 128) = 1", 0);
         behind("r2 = r10\nr2 += 4000\n", "*(u8 *)(r2 - 4008) = 1", 0);
+        behind("r3 = 1\n", "lock *(u64 *)(r10 - 7) += r3", RANGE);
+        behind("r3 = 1\n", "fetch *(u32 *)(r10 + 0) += r3", RANGE);
+        behind("r3 = 1\n*(u64 *)(r10 - 128) = 1\n", "xchg *(u64 *)(r10 - 128) r3", 0);
+        behind("r3 = 1\n", "xchg *(u64 *)(r10 - 129) r3", RANGE);
+        behind(CELL + "r3 = 1\n", "lock *(u64 *)(r0 + 0) += r3", 0);
+        behind(CELL + "r3 = 1\n", "lock *(u64 *)(r0 + 1) += r3", RANGE);
+        behind(CELL + "r3 = 1\n", "lock *(u32 *)(r0 + 4) += r3", 0);
+        behind(CELL + "r3 = r10\n", "lock *(u32 *)(r0 + 5) += r3", RANGE);
         behind(CELL, "*(u64 *)(r0 + 0) = 1", 0);
         behind(CELL, "*(u64 *)(r0 + 1) = 1", RANGE);
         behind(CELL, "*(u8 *)(r0 - 1) = 1", RANGE);

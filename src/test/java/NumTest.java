@@ -107,6 +107,9 @@ public final class NumTest {
         known(SOME + "if r2 s< 10" + end, 0, 15, 0, 9, 0, 9);
         known(SOME + "if w2 < 10" + end, 0, 15, 0, 9, 0, 9);
         known(SOME + "if w2 s< 10" + end, 0, F, 0, F, 0, F);
+        known(SOME + "r2 <<= 1\nif w2 < 10" + end, 0, F << 1, 0, F << 1, 0, F << 1);
+        known(SOME + "r2 <<= 1\nr3 = 10\nif w3 > w2" + end, 0, F << 1, 0, F << 1, 0, F << 1);
+        known(SOME + "r3 = r2\nr3 <<= 1\nr3 &= 16\nr3 |= 3\nif w2 < w3" + end, 0, 31, 0, 18, 0, 18);
         known(SOME + "if w2 > -2" + end, F, 0, F, F, F, F);
         known("call 5\nr2 = r0\nif w2 < 10" + end, 0, -1, 0, -1, Long.MIN_VALUE, Long.MAX_VALUE);
         known(SOME + "if r2 == 10" + end, 10, 0, 10, 10, 10, 10);

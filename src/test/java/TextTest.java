@@ -125,10 +125,25 @@ public final class TextTest {
         House.due("blanks", HOUSE.printed(0), "r1 = 511\nr1 += -1\n*(u32 *)(r10 - 4) = -3\nexit\n");
         House.due("CONST of 32 bits", HOUSE.assemble(0, "w1 = 4294967295\nr1 = -2147483648\nr1 = 0x80000000"), 3);
         House.due("CONST of 32 bits", HOUSE.printed(0), "w1 = -1\nr1 = -2147483648\nr1 = -2147483648\n");
+        House.due("the greatest ll", HOUSE.assemble(0, "r1 = 18446744073709551615 ll\nword 0xFFFFFFFFFFFFFFFF"), 3);
+        House.due("the greatest ll", HOUSE.house.word(0, 2), -1);
+        cutOff("r1 += 5", 4, 3);
+        cutOff("r1 <<= 5", 5, 3);
+        cutOff("r1 = 0x5", 7, 6);
+        cutOff("r1 = 55 6", 7, 0);
+        cutOff("exit", 3, 0);
         House.due("hexadecimal ends", HOUSE.assemble(0, "r1 = 0x"), -10 - 6);
         House.due("digits and a name", HOUSE.assemble(0, "r1 = 5l"), -10 - 6);
         House.due("signs are long", HOUSE.assemble(0, "r1 == 5"), -10 - 3);
         House.due("signs are not longer", HOUSE.assemble(0, "r1 > >= 5"), -10 - 3);
+    }
+
+    /** What stood on the tape behind its end does not count; this place is WRONG then (0: also that there is one word). */
+    private static void cutOff(String text, int n, int place) {
+        HOUSE.tapeText(text);
+        HOUSE.house.cut(n);
+        int answer = HOUSE.house.assemble(0);
+        House.due("the first " + n + " of <" + text + ">", answer, text.contains("55") ? 1 : -10 - place);
     }
 
     private static void labels() {
