@@ -2605,16 +2605,16 @@ public final class FilterHouse {
 
         /** The next operation of a run. */
         void goOn(Runs runs) {
-            int slot = runs.slot;
-            if (runs.next < 0 || runs.next >= sizes[slot]) {
+            int[] turned = codes[runs.slot];
+            if (turned == null || runs.next < 0 || runs.next >= sizes[runs.slot]) {
                 runs.over = true;
                 return;
             }
             int at = runs.next * FIELDS;
-            int operation = codes[slot][at];
-            int a = codes[slot][at + 1];
-            int b = codes[slot][at + 2];
-            int c = codes[slot][at + 3];
+            int operation = turned[at];
+            int a = turned[at + 1];
+            int b = turned[at + 2];
+            int c = turned[at + 3];
             runs.next++;
             if ((operation & STEP) != 0) {
                 runs.steps++;
@@ -4287,8 +4287,8 @@ public final class FilterHouse {
         /** Of each word the first and the last state that are kept there. */
         private final State[] firsts = new State[Slots.WORDS_MOST];
         private final State[] lasts = new State[Slots.WORDS_MOST];
-        private State here;
-        private State spare;
+        private State here = new State();
+        private State spare = new State();
         private final int[] pairs = new int[State.PAIRS];
 
         Judge(Maps maps) {
@@ -4307,10 +4307,6 @@ public final class FilterHouse {
                 joins[i] = false;
                 firsts[i] = null;
                 lasts[i] = null;
-            }
-            if (here == null) {
-                here = new State();
-                spare = new State();
             }
             steps.begin();
         }
@@ -4480,14 +4476,17 @@ public final class FilterHouse {
 
         /** The way at hand ends, so many instructions being put behind it; false: none waits. */
         private boolean endWay(int behind) {
-            here.latest.longest = Math.max(here.latest.longest, here.ahead + behind);
-            if (waiting == 0) {
+            State latest = here.latest;
+            if (latest != null) {
+                latest.longest = Math.max(latest.longest, here.ahead + behind);
+            }
+            State resumed = waiting == 0 ? null : waits[waiting - 1];
+            if (resumed == null) {
                 closeBack(null);
-                facts[LONGEST] = kept[0].longest;
+                facts[LONGEST] = kept[0] == null ? 0 : kept[0].longest;
                 return false;
             }
             waiting--;
-            State resumed = waits[waiting];
             closeBack(resumed.latest);
             waits[waiting] = here;
             here = resumed;
