@@ -56,6 +56,7 @@ public final class EdgeJudgeTest {
         gone();
         heldMost();
         nothing();
+        runOver();
         coveringOrder();
         coveringNumbers();
         coveringKinds();
@@ -269,6 +270,15 @@ public final class EdgeJudgeTest {
         fault("goto -32768\nexit", PLACE, 0);
         fault("call +1\nexit", PLACE, 0);
         fault("call -2\nexit", PLACE, 0);
+        // the word behind the 200th, the first and the last one
+        String most = "r0 = 0\n".repeat(198);
+        for (String far : new String[] {"goto +0", "gotol +0", "goto +1", "goto -201", "if r0 > 1 goto +0", "call +0", "call -201"}) {
+            fault(most + "exit\n" + far, PLACE, 199);
+        }
+        good(most + "exit\ngoto -2");
+        good(most + "exit\ngoto -200");
+        fault("goto +199\n" + most + "exit", PLACE, 0);
+        fault("goto +198\n" + "r0 = 0\n".repeat(197) + "exit\ngoto -2", UNSET, 198);
         // to the second word of a pair; from the last word of a pair on
         fault("goto +1\nr1 = 1 ll\nr0 = 0\nexit", PLACE, 0);
         fault("r1 = 1 ll\ngoto -2\nexit", PLACE, 2);
@@ -772,6 +782,13 @@ public final class EdgeJudgeTest {
         fault(String.format(moved, "r9 = *(u64 *)(r10 - 16)"), BYTES, 8);
         good(String.format(moved, "r9 = *(u64 *)(r10 - 24)"));
         good(String.format(moved, "r9 = *(u32 *)(r10 - 28)"));
+        // and in the function's own frame
+        String own = "call f\nexit\nf: r6 = *(u32 *)(r1 + 0)\nr7 = *(u32 *)(r1 + 4)\n*(u64 *)(r10 - 8) = r6\n*(u64 *)(r10 - 128) = r7\nr2 = 0\ncall 44\n%s\n" + OVER;
+        fault(String.format(own, "r9 = r6"), UNSET, 8);
+        fault(String.format(own, "r9 = r7"), UNSET, 8);
+        fault(String.format(own, "r9 = *(u64 *)(r10 - 8)"), BYTES, 8);
+        fault(String.format(own, "r9 = *(u64 *)(r10 - 128)"), BYTES, 8);
+        good(String.format(own, "r9 = 0"));
     }
 
     /** "A STATE: 1 to 4 FRAMES"; "13 DEEP: a 5th frame"; a STACK value into the stack of a lesser frame than its own. */
@@ -965,6 +982,7 @@ public final class EdgeJudgeTest {
         }
         behind("r2 = 4294967297 ll\nr1 = map 3\nr3 = 0\n", "call 131", CALL);
         behind(between(1, 64) + "r2 = r6\nr1 = map 3\nr3 = 0\n", "call 131", CALL);
+        behind("r2 = *(u32 *)(r1 + 8)\nr2 &= 2\nr2 |= 1\nr1 = map 3\nr3 = 0\n", "call 131", CALL);
         // a constant that jumps made is one, too; then the record is held at the EXIT
         String eight = between(8, 8) + "r2 = r6\nr1 = map 3\nr3 = 0\ncall 131\n";
         fault(eight + OVER, HELD, words(eight) + 1);
@@ -1134,6 +1152,91 @@ public final class EdgeJudgeTest {
         known(6, 6, 0, -1);
     }
 
+    /** What is known of r6 behind this. */
+    private static void makes(String text, long... due) {
+        String begin = "call 5\nr6 = r0\nr7 = r0\nr8 = r0\nr0 = 0\n" + text + "\n";
+        good(begin + "r0 = 1\nE: exit");
+        knownNumber(words("E: " + begin), 6, due);
+    }
+
+    private static final long TOP = Long.MIN_VALUE;
+    private static final long MAX = Long.MAX_VALUE;
+
+    /** "each range whole if one of its sums runs over", "whole if y.U2 is above x.U1", "if both U2 are at most F". */
+    private static void runOver() {
+        String signs = "r6 = (s8) r6\nr7 = (s8) r7\n";
+        makes(signs + "r8 = " + (TOP + 128) + " ll\nr6 += r8", TOP, 255, TOP, TOP + 255, TOP, TOP + 255);
+        makes(signs + "r8 = " + (TOP + 127) + " ll\nr6 += r8", 0, -1, 0, -1, TOP, MAX);
+        makes(signs + "r8 = " + (MAX - 127) + " ll\nr6 += r8", MAX - 255, 255, MAX - 255, MAX, MAX - 255, MAX);
+        makes(signs + "r8 = " + (MAX - 126) + " ll\nr6 += r8", 0, -1, 0, -1, TOP, MAX);
+        makes(signs + "r8 = " + (TOP + 128) + " ll\nr6 -= r8", MAX - 255, 255, MAX - 255, MAX, MAX - 255, MAX);
+        makes(signs + "r8 = " + (TOP + 127) + " ll\nr6 -= r8", 0, -1, 0, -1, TOP, MAX);
+        makes(signs + "r8 = " + (MAX - 127) + " ll\nr6 -= r8", TOP, 255, TOP, TOP + 255, TOP, TOP + 255);
+        makes(signs + "r8 = " + (MAX - 126) + " ll\nr6 -= r8", 0, -1, 0, -1, TOP, MAX);
+        // no sum of numbers with the same signs, or with others, runs over by itself
+        String less = signs + "if r6 s< -10 goto E\nif r6 s> -5 goto E\n";
+        makes(less + "r6 -= r7", 0, -1, 0, -1, -137, 123);
+        makes(less + "r6 += r7", 0, -1, 0, -1, -138, 122);
+        makes(less + "r7 -= r6\nr6 = r7", 0, -1, 0, -1, -123, 137);
+        String more = signs + "if r6 s< 5 goto E\nif r6 s> 10 goto E\n";
+        makes(more + "r6 -= r7", 0, -1, 0, -1, -122, 138);
+        makes(more + "r6 += r7", 0, -1, 0, -1, -123, 137);
+        // U: up to 2^64 - 1, and one more; S is not whole then
+        makes("r6 &= 15\nr6 += -16", -16, 15, -16, -1, -16, -1);
+        makes("r6 &= 15\nr6 += -15", 0, -1, 0, -1, -15, 0);
+        makes("r6 &= 15\nr6 -= 16", -16, 15, -16, -1, -16, -1);
+        makes("r6 &= 15\nr6 -= 1", 0, -1, 0, -1, -1, 14);
+        makes("r6 &= 15\nr6 -= 0", 0, 15, 0, 15, 0, 15);
+        String two = "r6 &= 15\nr6 += 16\nr7 &= 31\nif r7 > %d goto E\nr6 -= r7";
+        makes(String.format(two, 16), 0, 31, 0, 31, 0, 31);
+        makes(String.format(two, 17), 0, -1, 0, -1, -1, 31);
+        // products: F by F, and F by F + 1
+        long f = 0xFFFFFFFFL;
+        makes("w6 = w6\nw7 = w7\nr6 *= r7", 0, -1, 0, f * f, TOP, MAX);
+        makes("w6 = w6\nr8 = " + f + " ll\nif r7 > r8 goto E\nr6 *= r7", 0, -1, 0, f * f, TOP, MAX);
+        makes("w6 = w6\nr8 = " + (f + 1) + " ll\nif r7 > r8 goto E\nr6 *= r7", 0, -1, 0, -1, TOP, MAX);
+        makes("w7 = w7\nr8 = " + (f + 1) + " ll\nif r6 > r8 goto E\nr6 *= r7", 0, -1, 0, -1, TOP, MAX);
+        // both constant: the product, whatever runs over
+        makes("r6 = -1\nr6 *= -1", 1, 0, 1, 1, 1, 1);
+        makes("r6 = 0x100000001 ll\nr7 = r6\nr6 *= r7", 0x200000001L, 0, 0x200000001L, 0x200000001L, 0x200000001L, 0x200000001L);
+        makes("w6 = -1\nw6 *= w6", 1, 0, 1, 1, 1, 1);
+        // lowest 0s: together 63, and 64
+        makes("r6 <<= 31\nr7 <<= 32\nr6 *= r7", 0, TOP, 0, TOP, TOP, 0);
+        makes("r6 <<= 32\nr7 <<= 32\nr6 *= r7", 0, 0, 0, 0, 0, 0);
+        makes("r6 <<= 1\nr6 *= 0", 0, 0, 0, 0, 0, 0);
+        // U moved, if U2 loses no bits
+        makes("r6 &= 7\nr6 += 1\nr6 <<= 60", 0, -1L << 60, 1L << 60, TOP, TOP, MAX & -1L << 60);
+        makes("r6 &= 7\nr6 += 1\nif r6 == 8 goto E\nr6 <<= 60", 0, 7L << 60, 1L << 60, 7L << 60, 1L << 60, 7L << 60);
+        makes("r6 &= 7\nr6 += 1\nr6 <<= 61", 0, -1L << 61, 0, -1L << 61, TOP, MAX & -1L << 61);
+        makes("r6 <<= 0", 0, -1, 0, -1, TOP, MAX);
+        makes("r6 &= 1\nr6 <<= 63", 0, TOP, 0, TOP, TOP, 0);
+        makes("r6 >>= 63", 0, 1, 0, 1, 0, 1);
+        makes("r6 s>>= 63", 0, -1, 0, -1, -1, 0);
+        makes("w6 <<= 31", 0, 1L << 31, 0, 1L << 31, 0, 1L << 31);
+        makes("w6 >>= 31", 0, 1, 0, 1, 0, 1);
+        makes("w6 >>= 0", 0, f, 0, f, 0, f);
+        // / and % by a constant 0, by what may be 0, the least number by -1
+        makes("r6 = 7\nr7 = 0\nr6 /= r7", 0, 0, 0, 0, 0, 0);
+        makes("r6 = 7\nr7 = 0\nr6 s/= r7", 0, 0, 0, 0, 0, 0);
+        makes("r6 = 7\nr7 = 0\nr6 %= r7", 7, 0, 7, 7, 7, 7);
+        makes("r6 = 7\nr7 = 0\nr6 s%= r7", 7, 0, 7, 7, 7, 7);
+        makes("r6 &= 7\nr7 = 0\nr6 /= r7", 0, 7, 0, 7, 0, 7);
+        makes("r6 &= 6\nr7 = 0\nr6 %= r7", 0, 7, 0, 6, 0, 6);
+        makes("r6 &= 6\nr6 /= r7", 0, 7, 0, 6, 0, 6);
+        makes("r6 &= 6\nr6 %= r7", 0, 7, 0, 6, 0, 6);
+        makes("r6 = -9223372036854775808 ll\nr6 s/= -1", TOP, 0, TOP, TOP, TOP, TOP);
+        makes("r6 = -9223372036854775808 ll\nr6 s%= -1", 0, 0, 0, 0, 0, 0);
+        makes("w6 = 0x80000000\nw6 s/= -1", 1L << 31, 0, 1L << 31, 1L << 31, 1L << 31, 1L << 31);
+        makes("r6 &= 1\nr6 s/= 1", 0, -1, 0, -1, TOP, MAX);
+        makes("r6 &= 1\nw6 s%= 1", 0, f, 0, f, 0, f);
+        makes("r6 = - r6", 0, -1, 0, -1, TOP, MAX);
+        makes("r6 = -9223372036854775808 ll\nr6 = - r6", TOP, 0, TOP, TOP, TOP, TOP);
+        // CUT: U, if it is the same above the lowest 32 bits at both ends
+        makes("r6 &= 7\nr8 = " + (f + 1) + " ll\nr6 |= r8\nw6 = w6", 0, 7, 0, 7, 0, 7);
+        makes("r6 &= 7\nr8 = " + (f - 3) + " ll\nr6 += r8\nw6 = w6", 0, f, 0, f, 0, f);
+        makes("r6 &= 3\nr8 = " + (f - 3) + " ll\nr6 += r8\nw6 = w6", f - 3, 3, f - 3, f, f - 3, f);
+    }
+
     /** "the states that are kept there are looked at in their order; by the first one that COVERS the state at hand". */
     private static void coveringOrder() {
         // the first one is not DONE, the second one is: LOOP
@@ -1278,6 +1381,18 @@ public final class EdgeJudgeTest {
         covers("", String.format(three, "r6"), String.format(three, "r7"), false);
         covers("", String.format(three, "r7"), String.format(three, "r6"), false);
         covers("", String.format(three, "r7"), String.format(three, "r7"), true);
+        manyTags();
+        // those of before the two ways, turned: they answer to one another all the same
+        String ahead = KEY + "r1 = map 0\ncall 1\nr6 = r0\nr2 = r10\nr2 += -16\nr1 = map 0\ncall 1\nr7 = r0\nr0 = 0\n";
+        covers(ahead + "r1 = r8\n", "", "r5 = r6\nr6 = r7\nr7 = r5\n", true);
+        covers(ahead + "r1 = r8\n", "r5 = r6\n", "r5 = r6\nr6 = r7\nr7 = r5\n", false);
+        covers(ahead + "r1 = r8\n", "r5 = r7\n", "r5 = r6\nr6 = r7\nr7 = r5\n", true);
+        covers(ahead + "r1 = r8\n", "r5 = r6\n", "r5 = r7\n", false);
+        // MAPs, ENDs have none, and no CELL has one beside what is CELL OR 0
+        String others = KEY + "r1 = map 0\ncall 1\nr6 = r0\nr0 = 0\nr7 = map 0\nr5 = *(u32 *)(r8 + 4)\n";
+        covers("", others, others, true);
+        covers4(two + "if r7 != 0 goto +2\nr0 = 0\nexit\n", two + "if r7 != 0 goto +2\nr0 = 0\nexit\n", true);
+        covers4(two + "if r6 != 0 goto +2\nr0 = 0\nexit\n", two + "if r6 != 0 goto +2\nr0 = 0\nexit\n", true);
         // CELLs have none: of one look-up, of two
         String cells = "if r6 != 0 goto +2\nr0 = 0\nexit\nif r7 != 0 goto +2\nr0 = 0\nexit\n";
         covers4(two + cells, one + "if r6 != 0 goto +2\nr0 = 0\nexit\n", true);
@@ -1293,6 +1408,7 @@ public final class EdgeJudgeTest {
         // a PART of 0 that has a TAG, and one of TAG 0: r5 is 0 .. 7 of the one, and of the other nothing was added
         covers("", load + "r6 += r5\nr5 = 0\n", load + "r5 = 0\n", false);
         covers("", load + "r5 = 0\n", load + "r6 += r5\nr5 = 0\n", false);
+        covers("", load + "r7 = 0\nr6 += r5\nr5 = 0\n", load + "r7 = 0\nr5 = 0\n", false);
         // held records in their order first: r6 and r7 are the first and the second one, or turned
         String records = "r1 = map 6\nr2 = 8\nr3 = 0\ncall 131\n*(u64 *)(r10 - 8) = r0\nr1 = map 6\nr2 = 8\nr3 = 0\ncall 131\n*(u64 *)(r10 - 16) = r0\nr0 = 0\n%s";
         String straight = "r6 = *(u64 *)(r10 - 8)\nr7 = *(u64 *)(r10 - 16)\n*(u64 *)(r10 - 8) = 0\n*(u64 *)(r10 - 16) = 0\n";
@@ -1301,6 +1417,24 @@ public final class EdgeJudgeTest {
         covers3(String.format(records, straight), String.format(records, turned), false);
         covers3(String.format(records, turned), String.format(records, straight), false);
         covers3(String.format(records, turned), String.format(records, turned), true);
+    }
+
+    /** Five look-ups; of each two of them the later one's place has the earlier one's TAG, or its own. */
+    private static void manyTags() {
+        StringBuilder all = new StringBuilder("*(u64 *)(r10 - 8) = 1\n");
+        for (int i = 0; i < 5; i++) {
+            all.append("r2 = r10\nr2 += -8\nr1 = map 0\ncall 1\n*(u64 *)(r10 - ").append(16 + 8 * i).append(") = r0\n");
+        }
+        all.append("r0 = 0\n");
+        covers("", all.toString(), all.toString(), true);
+        for (int i = 0; i < 5; i++) {
+            for (int k = 0; k < i; k++) {
+                String same = all + "r0 = *(u64 *)(r10 - " + (16 + 8 * k) + ")\n*(u64 *)(r10 - " + (16 + 8 * i) + ") = r0\nr0 = 0\n";
+                covers("", same, same, true);
+                covers("", all.toString(), same, false);
+                covers("", same, all.toString(), false);
+            }
+        }
     }
 
     private static final String END = "M: r9 = 0\nif r6 == 0 goto N\nr1 = r6\nr2 = 0\ncall 133\nN: if r7 == 0 goto O\nr1 = r7\nr2 = 0\ncall 133\nO: r0 = 0\nexit\n";
