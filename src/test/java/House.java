@@ -2,8 +2,8 @@ import java.nio.charset.StandardCharsets;
 
 /** A FilterHouse for tests: feeds texts and bytes, and counts answers that are not as due. */
 final class House {
-    private static int wrong = 0;
-    private static int checked = 0;
+    private static long wrong = 0;
+    private static long checked = 0;
 
     final FilterHouse house = new FilterHouse();
 
